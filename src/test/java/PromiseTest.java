@@ -390,6 +390,9 @@ public final class PromiseTest {
         planFault(to + "move:a>x;move:b>x;move:c>x;move:d>x;move:e>x", -4048);
         planFault(to + "swap:1>2;swap:2>2;swap:3>2;swap:4>2;swap:5>2", -4048);
         planFault(to + "word:a>x;word:b>x;word:c>x;word:d>x;word:e>x", -4048);
+        commits("1:", "2:", "3:");
+        planFault(to + "graft:0>.;graft:1>.;graft:2>.;graft:3>.;graft:4>.", -4052);
+        is(plan(0, to + "graft:0>.;graft:1>.;graft:2>.;graft:4>."), 6, "four grafts");
         planFault(to + "move:a>b;move:a", -6021);
         planFault(to + "move:.>b;move:.?", -6021);
         planFault(to + "move:a>b;move:a/", -1028);
@@ -699,6 +702,12 @@ public final class PromiseTest {
         is(carried(5).split(":", -1)[2], "#3", "no ELDER");
         carry(7, ";keep:c");
         is(carried(3).split(":", -1)[2], "fix##?x12ab", "an ELDER without IMAGE");
+        commits("7:+d=1:abcdz1z2zz");
+        commits((x.count(0) - 1) + ":+d=2:abcd1abcc");
+        int last = x.count(0) - 1;
+        carry(last, ";word:abcd>z;word:z>abcd;word:abcc>q;word:zz>y");
+        is(carried(last - 1).split(":", -1)[2], "abcdz1abcd2y", "all the letters that stand there are one word");
+        is(carried(last).split(":", -1)[2], "z1q", "words of four letters");
         carry(7, ";word:ab>abcd;since:1;drop:a");
         is(x.commitIs(x.image(0, 0, 0), 0), -1, "COMMIT 0 has none");
         is(carried(6).split(":", -1)[2], "abcd#" + x.image(0, 4, 0), "both");

@@ -10,6 +10,11 @@ public final class RandomRuns {
     private static final Map<String, Method> FACE = methods(CarriedHistory.class);
     private static final Map<String, Method> MODEL = methods(Model.class);
 
+    private static final List<String> NAMES = FACE.keySet().stream().filter(n -> !n.equals("undo")).sorted().toList();
+    private static final int[] EDGES = {Integer.MIN_VALUE, Integer.MAX_VALUE, -1000, -5, -2, -1, 5, 6, 7, 8, 9, 10, 11,
+        12, 13, 15, 16, 19, 20, 21, 25, 26, 31, 32, 63, 64, 119, 120, 121, 127, 128, 129, 130, 160, 161, 240, 241, 255,
+        260, 261, 599, 600, 999, 1000};
+
     private final Random random;
     private final CarriedHistory real = new CarriedHistory();
     private final Model model = new Model();
@@ -278,7 +283,7 @@ public final class RandomRuns {
 
     private void change() {
         int kind = random.nextInt(100);
-        if (crowd && chance(60)) {
+        if (crowd && chance(20)) {
             makeHollow();
         } else if (kind < 42) {
             makeCommit();
@@ -313,7 +318,8 @@ public final class RandomRuns {
     }
 
     private void ask() {
-        switch (random.nextInt(28)) {
+        switch (random.nextInt(30)) {
+            case 28, 29 -> wild();
             case 0 -> call("commitIs", someCommit(), small(14));
             case 1 -> call("spelt", someCommit(), small(60));
             case 2 -> call("look", someCommit(), feedText(chance(5) ? spoilt(path(6)) : path(6), 11), small(4));
@@ -340,6 +346,16 @@ public final class RandomRuns {
             case 26 -> call("line", someCommit(), small(20));
             default -> call("count", small(6));
         }
+    }
+
+    /** Any call, with numbers from the edges of what may be and from far outside. */
+    private void wild() {
+        String name = NAMES.get(random.nextInt(NAMES.size()));
+        int[] args = new int[FACE.get(name).getParameterCount()];
+        for (int i = 0; i < args.length; i++) {
+            args[i] = chance(60) ? random.nextInt(5) : EDGES[random.nextInt(EDGES.length)];
+        }
+        call(name, args);
     }
 
     /** All that stands, asked one by one. */
@@ -397,6 +413,10 @@ public final class RandomRuns {
             call("ref", random.nextInt(2), 0, letter(), someCommit());
         }
         makePlan();
+        int filled = crowd ? 90 + random.nextInt(31) : 0;
+        while (model.commits() < filled && calls < 300) {
+            makeHollow();
+        }
         while (calls < most && !wrong) {
             if (chance(asks)) {
                 ask();
