@@ -177,6 +177,32 @@ public final class PromiseTest {
         is(spelt(x.count(0) - 1), ":a/b/c/d=123456:ab12#3zz9999", "the most that may be told");
     }
 
+    private void longTexts() {
+        StringBuilder b = new StringBuilder(":+a=1");
+        while (b.length() + 7 <= 158) {
+            b.append(";+a=").append(100 + b.length());
+        }
+        String most = b + ":" + "m".repeat(159 - b.length());
+        is(most.length(), 160, "bytes");
+        is(commit(most, 0, 0), 0, "a text of 160 bytes");
+        tell(most + " ");
+        is(x.commit(161, 0, 0), -1, "161 bytes");
+        is(x.count(1), 180, "the tape stays");
+        is(x.commit(160, 0, 1), 1, "160 of them");
+        x = new CarriedHistory();
+        String told = "from:0;to:1;keep:a/b/c/d" + ";skip:1".repeat(30) + ";tags:";
+        is(told.length(), 240, "bytes");
+        is(plan(0, told), -1240, "the end");
+        tell(told + "1");
+        is(x.plan(0, 241), -1, "241 bytes");
+        is(x.count(1), 260, "the tape stays");
+        is(x.plan(0, 233), -1233, "the end behind a :");
+        tell("from:0;to:1;keep:a/b/c" + ";skip:1".repeat(30) + ";skip:12");
+        is(x.plan(0, 239), 34, "a text of 239 bytes");
+        tell("from:0;to:1;since:012" + ";skip:1".repeat(29) + ";drop:a/b;keep:a");
+        is(x.plan(0, 240), 34, "a text of 240 bytes");
+    }
+
     private void p3Order() {
         commits(":+b=1;+a/b=2;+a/a/z=3;+z/a=5;+a/c=4;+c/a=6");
         is(spelt(0), ":a/a/z=3;a/b=2;a/c=4;b=1;c/a=6;z/a=5:", "NAME by NAME");
@@ -270,8 +296,10 @@ public final class PromiseTest {
         fault("4,7:^1y", -4004);
         fault("4,7:-a;^1y", -4007);
         is(commit("4,7:-a;-b;^1y", 0, 0), 8, "just sixteen");
-        is(commit("7:+y/c/d=1;*y>q/w/e/r", 0, 0), 9, "six NAMES in all, by an EDIT of four");
-        is(spelt(9).contains("q/w/e/r/c/d=1"), true, "moved");
+        is(commit("8,7:^1y", 0, 0), 9, "sixteen, two in place of two");
+        is(commit("8,7:-y/a;^1y", 0, 1), 10, "two in place of one of fifteen");
+        is(commit("7:+y/c/d=1;*y>q/w/e/r", 0, 0), 11, "six NAMES in all, by an EDIT of four");
+        is(spelt(11).contains("q/w/e/r/c/d=1"), true, "moved");
     }
 
     private static void is(boolean got, boolean due, String what) {
@@ -859,6 +887,10 @@ public final class PromiseTest {
         is(x.replay(0, 1, 4), 7, "a FOLDER goes, a FILE comes in its place");
         is(spelt(7), "6:q=1;x=1:", "both");
         is(x.replay(0, 1, 5), -8, "a CHANGE of nothing");
+        branch(0, 'c', 0);
+        is(commit("3:+r=2", 0, 9), 8, "one more FILE");
+        is(x.replay(0, 2, 8), 9, "sixteen FILES");
+        is(x.commitIs(9, 3), 16, "sixteen FILES");
     }
 
     private void p9Full() {
@@ -1190,6 +1222,9 @@ public final class PromiseTest {
         is(x.way(5, 5), 0, "itself");
         is(x.way(5, 0), -2, "no way");
         is(x.way(6, 0), -1, "COMMIT 6");
+        commits("0:+a=1", "6:", "7:", "8,1:");
+        is(x.way(0, 9), 2, "the way found later is shorter");
+        is(x.way(6, 9), 3, "by the first PARENT");
         is(x.way(0, -1), -1, "COMMIT -1");
     }
 
@@ -1467,6 +1502,15 @@ public final class PromiseTest {
         is(x.check(6), 2, "the first that is not so");
         x.feed(0x03030204, 0x04ff0000, 0, 0, 0);
         is(x.check(2), -1, "right so far");
+        x.feed(0x03030304, 0x04ffffff, -1, -1, -1);
+        for (int i = 0; i < 5; i++) {
+            x.feed(-1, -1, -1, -1, -1);
+        }
+        is(x.check(120), -1, "120 bytes of just 120");
+        for (int i = 0; i < 7; i++) {
+            x.feed(-1, -1, -1, -1, -1);
+        }
+        is(x.check(121), -2, "121 bytes");
         tell("a");
         is(x.check(0), -1, "nothing asked");
         is(x.count(1), 0, "the tape is empty");
@@ -1498,6 +1542,7 @@ public final class PromiseTest {
         of(3).p3();
         of(3).p3Edits();
         of(3).p3Order();
+        of(3).longTexts();
         of(3).p3Faults();
         of(3).p3Rest();
         of(3).p3Full();

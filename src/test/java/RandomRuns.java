@@ -365,6 +365,7 @@ public final class RandomRuns {
             call("count", what);
         }
         for (int k = 0; k < n; k++) {
+            askPair(random.nextInt(n), k);
             for (int what = 0; what < 13; what++) {
                 call("commitIs", k, what);
             }
@@ -403,6 +404,29 @@ public final class RandomRuns {
                 call("historyIs", p, what);
             }
         }
+    }
+
+    private void askPair(int j, int k) {
+        call("ancestor", j, k);
+        call("way", j, k);
+        call("line", k, random.nextInt(6));
+        call("base", j, k, 0);
+        call("base", j, k, 10 + random.nextInt(3));
+        for (int what = 0; what < 4; what++) {
+            call("halving", j, k, what);
+            call("diff", j, k, what);
+            call("renamed", j, k, random.nextInt(3), what);
+            call("likeness", j, random.nextInt(4), k, random.nextInt(4), what);
+        }
+        int h = random.nextInt(4);
+        call("listing", h, random.nextInt(n(h) + 2));
+        call("apart", h, random.nextInt(4), random.nextInt(4));
+        call("touches", random.nextInt(2), feedText(pathNear(k), 11));
+        call("look", k, feedText(pathNear(k), 11), random.nextInt(4));
+    }
+
+    private int n(int h) {
+        return (int) call("historyIs", h, 1);
     }
 
     private boolean isRight() {
