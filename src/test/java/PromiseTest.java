@@ -742,20 +742,20 @@ public final class PromiseTest {
     }
 
     private void longMessages() {
-        for (int i = 0; i < 104; i++) {
+        for (int i = 0; i < 99; i++) {
             is(commit(i == 0 ? ":+a=1" : (i - 1) + ":+a=" + (i + 1) + (i == 9 ? ":#1#2#3#4#5#6" : ""), 0, 0), i, "COMMIT " + i);
         }
         branch(0, 'a', 9);
         is(plan(0, "from:0;to:1;move:a>b"), 3, "plan");
         is(x.run(0), 10, "run");
-        is(x.image(0, 1, 0), 105, "IMAGES of three digits");
-        is(carried(9), "112:b=10:#105#106#107#108#109#110", "just 24 bytes");
+        is(x.image(0, 1, 0), 100, "IMAGES of three digits");
+        is(carried(9), "107:b=10:#100#101#102#103#104#105", "just 24 bytes");
         is(x.commitIs(x.image(0, 9, 0), 4), 24, "24 bytes");
-        is(commit("0:+a=3:a#0a#0a#0a#0", 0, 0), 114, "another one");
-        branch(0, 'a', 114);
+        is(commit("0:+a=3:a#0a#0a#0a#0", 0, 0), 109, "another one");
+        branch(0, 'a', 109);
         is(plan(0, "from:0;to:1;move:a>b;word:a>abcd"), 4, "plan");
         is(x.run(0), 2, "run");
-        is(carried(114), "104:b=3:abcd#104abcd#104abcd#104", "cut behind the 24th byte");
+        is(carried(109), "99:b=3:abcd#99abcd#99abcd#99abc", "cut behind the 24th byte");
     }
 
     private void grafts() {
