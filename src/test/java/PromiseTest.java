@@ -292,6 +292,7 @@ public final class PromiseTest {
         fault("4:-a;+q=1;+r=1", -4010);
         fault("4,1:-a;-f;^1a;^1f;+z=1", -4018);
         is(commit("4:*a>z/z", 0, 0), 6, "a move adds none");
+        is(commit("4:+a=2;+a=1;+p=3;+p=2", 0, 0), 5, "the first one in place of itself, too");
         is(commit(":+y/a=1;+y/b=2", 0, 0), 7, "a FOLDER of two");
         fault("4,7:^1y", -4004);
         fault("4,7:-a;^1y", -4007);
@@ -756,6 +757,15 @@ public final class PromiseTest {
         is(plan(0, "from:0;to:1;move:a>b;word:a>abcd"), 4, "plan");
         is(x.run(0), 2, "run");
         is(carried(109), "99:b=3:abcd#99abcd#99abcd#99abc", "cut behind the 24th byte");
+    }
+
+    private void farMentions() {
+        for (int i = 0; i < 102; i++) {
+            String message = i == 101 ? ":#100#10#1000" : "";
+            is(commit((i == 0 ? ":+a=1" : (i - 1) + ":+a=" + (i + 1)) + message, 0, 0), i, "COMMIT " + i);
+        }
+        carry(101, ";graft:100>.;move:a>b");
+        is(carried(101), "102:b=102:#102#10#1000", "of three digits one that is an ELDER, of two one that is none");
     }
 
     private void grafts() {
@@ -1562,6 +1572,7 @@ public final class PromiseTest {
         of(6).skips();
         of(6).messages();
         of(6).longMessages();
+        of(6).farMentions();
         of(6).grafts();
         of(8).p8();
         of(8).p8Many();
