@@ -1,109 +1,5 @@
 /** At least one run for each promise, by its number: ordinary inputs, the edges that the document names, wrong inputs. */
-public final class PromiseTest {
-    private static int right = 0;
-    private static int wrong = 0;
-    private static int promise = 0;
-
-    private CarriedHistory x = new CarriedHistory();
-
-    private static void is(long got, long due, String what) {
-        if (got == due) {
-            right++;
-        } else {
-            wrong++;
-            System.out.println("promise " + promise + ": " + what + " is " + got + ", due is " + due);
-        }
-    }
-
-    private static void is(String got, String due, String what) {
-        if (got.equals(due)) {
-            right++;
-        } else {
-            wrong++;
-            System.out.println("promise " + promise + ": " + what + " is " + got + ", due is " + due);
-        }
-    }
-
-    private static int four(String text, int at) {
-        int value = 0;
-        for (int i = at; i < at + 4; i++) {
-            value = value << 8 | (i < text.length() ? text.charAt(i) & 255 : 'a');
-        }
-        return value;
-    }
-
-    /** The text on the tape, filled up with the letter a. */
-    private void tell(String text) {
-        for (int at = 0; at < text.length(); at += 20) {
-            x.feed(four(text, at), four(text, at + 4), four(text, at + 8), four(text, at + 12), four(text, at + 16));
-        }
-    }
-
-    private int commit(String text, int who, int hour) {
-        tell(text);
-        return x.commit(text.length(), who, hour);
-    }
-
-    private void commits(String... texts) {
-        for (String text : texts) {
-            is(commit(text, 0, x.count(0)), x.count(0) - 1, "commit " + text);
-        }
-    }
-
-    private void fault(String text, int due) {
-        int before = x.count(0);
-        is(commit(text, 0, 0), due, "commit " + text);
-        is(x.count(0), before, "COMMITS behind " + text);
-        is(x.count(1), 0, "the tape behind " + text);
-    }
-
-    private int plan(int p, String text) {
-        tell(text);
-        return x.plan(p, text.length());
-    }
-
-    private void planFault(String text, int due) {
-        is(plan(0, text), due, "plan " + text);
-        is(x.count(1), 0, "the tape behind " + text);
-    }
-
-    private void branch(int h, char letter, int k) {
-        is(x.ref(h, 0, letter - 'a', k) > 0 ? 1 : 0, 1, "branch " + letter);
-    }
-
-    private String spelt(int k) {
-        StringBuilder b = new StringBuilder();
-        for (int at = 0; at < 600; at++) {
-            int sign = x.spelt(k, at);
-            if (sign < 0) {
-                return sign == -2 ? b.toString() : "" + sign;
-            }
-            b.append((char) sign);
-        }
-        return b.toString();
-    }
-
-    private int look(int k, String path, int what) {
-        tell(path);
-        return x.look(k, path.length(), what);
-    }
-
-    private int touches(int h, String path) {
-        tell(path);
-        return x.touches(h, path.length());
-    }
-
-    /** From HISTORY 0, whose BRANCH a is at COMMIT k, by a plan 0 to HISTORY 1. */
-    private void carry(int k, String lines) {
-        branch(0, 'a', k);
-        is(plan(0, "from:0;to:1" + lines) > 1 ? 1 : 0, 1, "plan " + lines);
-        is(x.run(0) >= 0 ? 1 : 0, 1, "run " + lines);
-    }
-
-    private String carried(int k) {
-        return spelt(x.image(0, k, 0));
-    }
-
+public final class PromiseTest extends Desk {
     // ---- the promises ----
 
     private void p1() {
@@ -301,10 +197,6 @@ public final class PromiseTest {
         is(commit("8,7:-y/a;^1y", 0, 1), 10, "two in place of one of fifteen");
         is(commit("7:+y/c/d=1;*y>q/w/e/r", 0, 0), 11, "six NAMES in all, by an EDIT of four");
         is(spelt(11).contains("q/w/e/r/c/d=1"), true, "moved");
-    }
-
-    private static void is(boolean got, boolean due, String what) {
-        is(got ? 1 : 0, due ? 1 : 0, what);
     }
 
     private void p3Full() {
@@ -1542,7 +1434,7 @@ public final class PromiseTest {
     // ---- all of them ----
 
     private static PromiseTest of(int number) {
-        promise = number;
+        where = "promise " + number;
         return new PromiseTest();
     }
 
