@@ -55,7 +55,7 @@ final class EdgesOfAsking extends Desk {
         is(x.commitIs(3, 8), 32, "the most PATHS UNLIKE");
     }
 
-    @Says(promise = 10, value = "10 + i PARENT i (0 to 2; not so many: -2); NONE: no such ones.")
+    @Says(promise = 10, value = "10 + i PARENT i (0 to 2; not so many: -2);")
     void commitIsParent() {
         commits(":", ":+a=1", ":+b=1", "2:", "2,0:", "2,1,0:");
         int[][] due = {{-2, -2, -2}, {-2, -2, -2}, {-2, -2, -2}, {2, -2, -2}, {2, 0, -2}, {2, 1, 0}};
@@ -66,9 +66,20 @@ final class EdgesOfAsking extends Desk {
             is(x.commitIs(k, 9), -1, "what 9");
             is(x.commitIs(k, 13), -1, "what 13");
         }
-        takes(0, 5, k -> x.commitIs(k, 10), "COMMIT");
+    }
+
+    @Says(promise = 10, value = "NONE: no such ones.")
+    void commitIsNone() {
+        is(x.commitIs(0, 0), -1, "without COMMITS");
+        store();
+        takes(0, 4, k -> x.commitIs(k, 0), "COMMIT");
+        takes(0, 4, k -> x.commitIs(k, 12), "COMMIT");
         takes(0, 8, what -> x.commitIs(0, what), "what");
         takes(10, 12, what -> x.commitIs(0, what), "what");
+        is(x.commitIs(5, 9), -1, "neither is there");
+        x = new CarriedHistory();
+        full();
+        takes(0, 119, k -> x.commitIs(k, 0), "COMMIT of 120");
     }
 
     @Says(promise = 11, value = "COMMIT k as a text, byte at (0 to 599): PARENTS with a , between two, : , FILES as PATH=CONTENT with a ; between two, : , its MESSAGE;")
@@ -110,7 +121,7 @@ final class EdgesOfAsking extends Desk {
         is(x.spelt(104, 599), -2, "far behind it");
     }
 
-    @Says(promise = 11, value = "-2: behind its end; NONE: no such ones.")
+    @Says(promise = 11, value = "-2: behind its end;")
     void speltEnds() {
         store();
         commits(":");
@@ -119,9 +130,17 @@ final class EdgesOfAsking extends Desk {
         is(x.spelt(4, 599), -2, "far behind it");
         is(x.spelt(5, 1), ':', "the last of two");
         is(x.spelt(5, 2), -2, "just behind them");
+        is(x.spelt(5, 599), -2, "far behind them");
+    }
+
+    @Says(promise = 11, value = "NONE: no such ones.")
+    void speltNone() {
+        is(x.spelt(0, 0), -1, "without COMMITS");
+        store();
         takes(0, 599, at -> x.spelt(4, at), "byte");
-        takes(0, 5, k -> x.spelt(k, 0), "COMMIT");
-        takes(0, 5, k -> x.spelt(k, 599), "COMMIT");
+        takes(0, 4, k -> x.spelt(k, 0), "COMMIT");
+        takes(0, 4, k -> x.spelt(k, 599), "COMMIT");
+        is(x.spelt(5, 600), -1, "neither is there");
     }
 
     // ---- 12 ----
@@ -170,10 +189,17 @@ final class EdgesOfAsking extends Desk {
         commits(all);
         is(look(3, "z", 3), 16, "the most that can stand in a FOLDER");
         is(look(3, "z", 1), 16, "the most FILES");
+        is(look(3, "z", 2), 1, "FILES alone");
+        is(look(3, "z/p", 0), 1, "the last FILE");
+        is(look(3, "z/q", 0), 0, "nothing behind it");
+        is(look(3, "zz", 0), -1001, "a FAULT");
+        commits(":+a/b/c=1;+a/d=2", ":+a/b=1;+a/d/c=2");
+        is(look(4, "a", 2), 0, "the first one is a FOLDER");
+        is(look(5, "a", 2), 0, "the last one is a FOLDER");
     }
 
-    @Says(promise = 12, value = "a FAULT: 1 what can't stand there; NONE: no such ones, it has not so many (the tape stays).")
-    void lookRefused() {
+    @Says(promise = 12, value = "a FAULT: 1 what can't stand there;")
+    void lookFaults() {
         commits(":+a/b=1");
         String[] texts = {"/", "A", "1", "a/", "a//", "ab", "a/b/", "a/1", "a/b/c/d/e/", "a/b/c/d/e/1", "a.", "a b", "`", "{", "a/`"};
         int[] due = {0, 0, 0, 2, 2, 1, 4, 2, 10, 10, 1, 1, 0, 0, 2};
@@ -190,19 +216,32 @@ final class EdgesOfAsking extends Desk {
             answer = look(0, "a" + sign + "b", 0);
             is(answer, sign == '/' ? 1 : -1001, "byte " + (int) sign + " for a /");
         }
+    }
+
+    @Says(promise = 12, value = "NONE: no such ones, it has not so many (the tape stays).")
+    void lookNone() {
+        tell("a");
+        refused(() -> x.look(0, 1, 0), -1, "without COMMITS");
+        x.check(0);
+        commits(":+a/b=1");
         takes(0, 0, k -> {
             tell("a/b");
             return emptied(x.look(k, 3, 0));
         }, "COMMIT");
+        takes(0, 3, what -> {
+            tell("a/b");
+            return emptied(x.look(0, 3, what));
+        }, "what");
         tell("a/b");
+        for (int k : new int[] {MIN, -1, 1, MAX}) {
+            refused(() -> x.look(k, 3, 0), -1, "COMMIT " + k);
+        }
         for (int what : new int[] {MIN, -1, 4, MAX}) {
             refused(() -> x.look(0, 3, what), -1, "what " + what);
         }
-        for (int n : new int[] {MIN, -1, 0, 12, 21, MAX}) {
+        for (int n : new int[] {MIN, -1, 0, 12, 20, 21, MAX}) {
             refused(() -> x.look(0, n, 0), -1, "n " + n);
         }
-        refused(() -> x.look(1, 3, 0), -1, "COMMIT 1");
-        refused(() -> x.look(-1, 3, 0), -1, "COMMIT -1");
         is(x.look(0, 3, 0), 1, "what was told stays");
         refused(() -> x.look(0, 1, 0), -1, "one more than none");
         tell("?");
@@ -242,22 +281,30 @@ final class EdgesOfAsking extends Desk {
         carry(119, ";empty:0");
         is(x.planIs(0, 8), 120, "the most MAPPED");
         is(x.planIs(0, 9), 120, "the most KEPT");
+        is(x.planIs(0, 12), 0, "none is without IMAGE, COMMIT 0 neither");
     }
 
-    @Says(promise = 13, value = "-2: none is told; NONE: no such ones.")
-    void planIsRefused() {
+    @Says(promise = 13, value = "-2: none is told;")
+    void planIsNotTold() {
         for (int p = 0; p < 4; p++) {
             for (int what = 0; what < 21; what++) {
                 is(x.planIs(p, what), -2, "planIs " + p + " " + what);
             }
-            is(x.planIs(p, 21), -1, "what 21, asked ahead");
-            is(x.planIs(p, -1), -1, "what -1, asked ahead");
         }
+        is(plan(2, "from:0;to:1"), 2, "plan");
+        int[] due = {-2, -2, 0, -2};
+        for (int p = 0; p < 4; p++) {
+            is(x.planIs(p, 0), due[p], "PLAN " + p);
+        }
+    }
+
+    @Says(promise = 13, value = "NONE: no such ones.")
+    void planIsNone() {
+        takes(0, 3, p -> x.planIs(p, 0), "PLAN, none of which is told");
+        takes(0, 20, what -> x.planIs(2, what), "what, asked ahead of -2");
         is(plan(2, "from:0;to:1"), 2, "plan");
         takes(0, 3, p -> x.planIs(p, 0), "PLAN");
         takes(0, 20, what -> x.planIs(2, what), "what");
-        is(x.planIs(2, 0), 0, "PLAN 2");
-        is(x.planIs(1, 0), -2, "PLAN 1");
     }
 
     @Says(promise = 14, value = "Of COMMIT k by PLAN p, what 0 its IMAGE (none: -2), 1: 0 KEPT, 1 EMPTY, 2 SKIPPED;")
@@ -283,27 +330,49 @@ final class EdgesOfAsking extends Desk {
         is(x.image(3, 0, 1), 2, "SKIPPED without IMAGE");
     }
 
-    @Says(promise = 14, value = "-3: no such PLAN is told; -4: it is not MAPPED; NONE: no such ones.")
-    void imageRefused() {
-        is(x.image(0, 0, 0), -1, "no COMMIT, asked ahead of -3");
+    @Says(promise = 14, value = "-3: no such PLAN is told;")
+    void imageOfNoPlan() {
         store();
-        for (int what = 0; what < 2; what++) {
-            is(x.image(3, 4, what), -3, "none is told");
-            is(x.image(0, 4, what), -3, "none is told");
+        for (int p = 0; p < 4; p++) {
+            for (int what = 0; what < 2; what++) {
+                is(x.image(p, 4, what), -3, "PLAN " + p);
+            }
         }
-        is(x.image(0, 0, 2), -1, "what 2, asked ahead of -3");
         is(plan(0, "from:0;to:1"), 2, "plan");
-        is(x.image(0, 0, 0), -4, "not MAPPED");
-        is(x.image(0, 0, 1), -4, "not MAPPED");
-        is(x.image(1, 0, 0), -3, "PLAN 1");
         is(x.run(0), 5, "run");
+        is(x.image(1, 0, 0), -3, "PLAN 1");
+        is(x.image(0, 0, 0), 0, "PLAN 0");
+    }
+
+    @Says(promise = 14, value = "-4: it is not MAPPED;")
+    void imageNotMapped() {
+        store();
+        is(plan(0, "from:0;to:1"), 2, "plan");
+        for (int k = 0; k < 5; k++) {
+            is(x.image(0, k, 0), -4, "ahead of a RUN");
+            is(x.image(0, k, 1), -4, "ahead of a RUN");
+        }
+        is(x.run(0), 5, "run");
+        is(x.image(0, 4, 0), 4, "behind it");
         commits("4:");
         is(x.image(0, 5, 0), -4, "one told since");
         is(x.image(0, 5, 1), -4, "one told since");
+        is(plan(0, "from:0;to:1"), 2, "told anew");
+        is(x.image(0, 4, 0), -4, "nothing is MAPPED then");
+    }
+
+    @Says(promise = 14, value = "NONE: no such ones.")
+    void imageNone() {
+        is(x.image(0, 0, 0), -1, "without COMMITS, asked ahead of -3");
+        store();
+        is(x.image(0, 0, 2), -1, "what 2, asked ahead of -3");
+        is(plan(0, "from:0;to:1"), 2, "plan");
+        is(x.image(0, 0, 2), -1, "what 2, asked ahead of -4");
+        is(x.run(0), 5, "run");
         takes(0, 3, p -> x.image(p, 0, 0), "PLAN");
-        takes(0, 5, k -> x.image(0, k, 0), "COMMIT");
+        takes(0, 4, k -> x.image(0, k, 0), "COMMIT");
+        takes(0, 4, k -> x.image(0, k, 1), "COMMIT");
         takes(0, 1, what -> x.image(0, 0, what), "what");
-        takes(0, 5, k -> x.image(0, k, 1), "COMMIT");
     }
 
     @Says(promise = 15, value = "TREE' of COMMIT k by PLAN p (MAPPED or not), what 0 FILES, 1 FILES TAKEN, 2 LOST, 3 the lowest COMMIT with that TREE (none: -2);")
@@ -326,6 +395,7 @@ final class EdgesOfAsking extends Desk {
         is(plan(2, "from:0;to:1"), 2, "plan");
         is(x.tried(2, 7, 3), 5, "the lowest of two");
         is(x.tried(2, 4, 3), 4, "itself");
+        is(x.tried(2, 0, 3), 0, "the lowest of all");
         commits(":+a=1;+b=1;+c=1;+d=1;+e=1;+f=1;+g=1;+h=1;+i=1;+j=1;+k=1;+l=1;+m=1;+n=1;+o=1;+p=1");
         int all = x.count(0) - 1;
         is(x.tried(2, all, 0), 16, "the most FILES");
@@ -335,16 +405,25 @@ final class EdgesOfAsking extends Desk {
         is(x.tried(2, all, 0), 12, "FILES");
     }
 
-    @Says(promise = 15, value = "-3: no such PLAN is told; NONE: no such ones.")
-    void triedRefused() {
-        is(x.tried(0, 0, 0), -1, "no COMMIT, asked ahead of -3");
+    @Says(promise = 15, value = "-3: no such PLAN is told;")
+    void triedOfNoPlan() {
         store();
-        for (int what = 0; what < 4; what++) {
-            is(x.tried(3, 4, what), -3, "none is told");
+        for (int p = 0; p < 4; p++) {
+            for (int what = 0; what < 4; what++) {
+                is(x.tried(p, 4, what), -3, "PLAN " + p);
+            }
         }
-        is(x.tried(0, 0, 4), -1, "what 4, asked ahead of -3");
         is(plan(0, "from:0;to:1"), 2, "plan");
         is(x.tried(1, 0, 0), -3, "PLAN 1");
+        is(x.tried(0, 0, 0), 3, "PLAN 0");
+    }
+
+    @Says(promise = 15, value = "NONE: no such ones.")
+    void triedNone() {
+        is(x.tried(0, 0, 0), -1, "without COMMITS, asked ahead of -3");
+        store();
+        is(x.tried(0, 0, 4), -1, "what 4, asked ahead of -3");
+        is(plan(0, "from:0;to:1"), 2, "plan");
         takes(0, 3, p -> x.tried(p, 0, 0), "PLAN");
         takes(0, 4, k -> x.tried(0, k, 0), "COMMIT");
         takes(0, 3, what -> x.tried(0, 0, what), "what");
@@ -378,16 +457,23 @@ final class EdgesOfAsking extends Desk {
         is(x.share(1), Double.doubleToRawLongBits(1.0 / 120.0), "one of 120");
     }
 
-    @Says(promise = 16, value = "-3: no such PLAN is told; NONE: no such one.")
-    void shareRefused() {
+    @Says(promise = 16, value = "-3: no such PLAN is told;")
+    void shareOfNoPlan() {
         for (int p = 0; p < 4; p++) {
             is(x.share(p), -3, "none is told");
         }
-        takes(0, 3, p -> x.share(p), "PLAN");
         is(plan(1, "from:0;to:1"), 2, "plan");
         is(x.share(1), 0, "PLAN 1");
         is(x.share(0), -3, "PLAN 0");
         is(x.share(2), -3, "PLAN 2");
+    }
+
+    @Says(promise = 16, value = "NONE: no such one.")
+    void shareNone() {
+        takes(0, 3, p -> x.share(p), "PLAN, none of which is told");
+        for (int p = 0; p < 4; p++) {
+            is(plan(p, "from:0;to:1"), 2, "plan");
+        }
         takes(0, 3, p -> x.share(p), "PLAN");
     }
 
@@ -427,17 +513,23 @@ final class EdgesOfAsking extends Desk {
         }
     }
 
-    @Says(promise = 17, value = "-3: no such PLAN is told; NONE: no such ones.")
-    void soundRefused() {
+    @Says(promise = 17, value = "-3: no such PLAN is told;")
+    void soundOfNoPlan() {
         for (int what = 0; what < 6; what++) {
             is(x.sound(0, what), -3, "none is told");
             is(x.sound(3, what), -3, "none is told");
         }
+        is(plan(2, "from:0;to:1"), 2, "plan");
+        is(x.sound(1, 0), -3, "PLAN 1");
+        is(x.sound(2, 0), 0, "PLAN 2");
+    }
+
+    @Says(promise = 17, value = "NONE: no such ones.")
+    void soundNone() {
         is(x.sound(0, 6), -1, "what 6, asked ahead of -3");
         is(plan(2, "from:0;to:1"), 2, "plan");
         takes(0, 3, p -> x.sound(p, 0), "PLAN");
         takes(0, 5, what -> x.sound(2, what), "what");
-        is(x.sound(1, 0), -3, "PLAN 1");
     }
 
     // ---- 18 to 20 ----
@@ -471,8 +563,8 @@ final class EdgesOfAsking extends Desk {
         is(x.refIs(0, 7, 0), 1, "REF 7 is the TAG");
     }
 
-    @Says(promise = 18, value = "-4: there are not so many; NONE: no such ones.")
-    void refIsRefused() {
+    @Says(promise = 18, value = "-4: there are not so many;")
+    void refIsNotSoMany() {
         commits(":");
         for (int i = 0; i < 8; i++) {
             is(x.refIs(0, i, 0), -4, "none");
@@ -481,11 +573,22 @@ final class EdgesOfAsking extends Desk {
             is(x.refIs(0, n, 2), -4, "REF " + n + " of " + n);
             is(x.ref(0, 0, n, 0), n + 1, "REF");
             is(x.refIs(0, n, 2), 0, "REF " + n + " of " + (n + 1));
+            is(x.refIs(1, n, 2), -4, "REF " + n + " of another HISTORY");
         }
+        is(x.ref(0, 0, 3, -1), 7, "a REF goes");
+        is(x.refIs(0, 7, 0), -4, "REF 7 of 7");
+    }
+
+    @Says(promise = 18, value = "NONE: no such ones.")
+    void refIsNone() {
+        commits(":");
         is(x.refIs(1, 0, 4), -1, "what 4, asked ahead of -4");
+        for (int i = 0; i < 8; i++) {
+            x.ref(0, 0, i, 0);
+        }
         takes(0, 3, h -> x.refIs(h, 0, 0), "HISTORY");
         takes(0, 7, i -> x.refIs(0, i, 0), "REF");
-        takes(0, 7, i -> x.refIs(1, i, 0), "REF");
+        takes(0, 7, i -> x.refIs(1, i, 0), "REF of none");
         takes(0, 3, what -> x.refIs(0, 0, what), "what");
     }
 
@@ -531,48 +634,71 @@ final class EdgesOfAsking extends Desk {
         takes(0, 6, what -> x.historyIs(0, what), "what");
     }
 
-    @Says(promise = 20, value = "COMMIT i (0 to 119) of the LISTING of HISTORY h; -4: there are not so many; NONE: no such ones.")
+    @Says(promise = 20, value = "COMMIT i (0 to 119) of the LISTING of HISTORY h;")
     void listing() {
-        for (int h = 0; h < 4; h++) {
-            is(x.listing(h, 0), -4, "none");
-            is(x.listing(h, 119), -4, "none");
-        }
         store();
-        int[] due = {4, 2, 1, 3, 0, -4, -4};
+        int[] due = {4, 2, 1, 3, 0};
         for (int i = 0; i < due.length; i++) {
             is(x.listing(0, i), due[i], "listing " + i);
         }
-        takes(0, 3, h -> x.listing(h, 0), "HISTORY");
-        takes(0, 119, i -> x.listing(0, i), "COMMIT of the LISTING");
-        takes(0, 119, i -> x.listing(1, i), "COMMIT of an empty LISTING");
         x = new CarriedHistory();
         full();
         for (int i = 0; i < 120; i++) {
             is(x.listing(0, i), 119 - i, "listing " + i);
         }
+    }
+
+    @Says(promise = 20, value = "-4: there are not so many;")
+    void listingNotSoMany() {
+        for (int h = 0; h < 4; h++) {
+            is(x.listing(h, 0), -4, "none");
+            is(x.listing(h, 119), -4, "none");
+        }
+        store();
+        is(x.listing(0, 4), 0, "the last one");
+        is(x.listing(0, 5), -4, "one more");
+        is(x.listing(0, 119), -4, "far more");
+        is(x.listing(1, 0), -4, "another HISTORY");
+        x = new CarriedHistory();
+        full();
+        is(x.listing(0, 119), 0, "the last one");
         branch(0, 'a', 118);
         is(x.listing(0, 118), 0, "the last one");
         is(x.listing(0, 119), -4, "one more");
     }
 
+    @Says(promise = 20, value = "NONE: no such ones.")
+    void listingNone() {
+        takes(0, 3, h -> x.listing(h, 0), "HISTORY without COMMITS");
+        store();
+        takes(0, 3, h -> x.listing(h, 0), "HISTORY");
+        takes(0, 119, i -> x.listing(0, i), "COMMIT of the LISTING");
+        takes(0, 119, i -> x.listing(1, i), "COMMIT of an empty LISTING");
+    }
+
     // ---- 21 to 24 ----
 
-    @Says(promise = 21, value = "COMMIT j is an ANCESTOR of COMMIT k: 1, 0; NONE: no such ones.")
+    @Says(promise = 21, value = "COMMIT j is an ANCESTOR of COMMIT k: 1, 0;")
     void ancestor() {
-        is(x.ancestor(0, 0), -1, "without COMMITS");
         full();
         for (int j : new int[] {0, 1, 31, 32, 62, 63, 64, 65, 118, 119}) {
             for (int k : new int[] {0, 1, 31, 32, 62, 63, 64, 65, 118, 119}) {
                 is(x.ancestor(j, k), j < k ? 1 : 0, "COMMIT " + j + " of COMMIT " + k);
             }
         }
-        takes(0, 119, j -> x.ancestor(j, 5), "the one above");
-        takes(0, 119, k -> x.ancestor(5, k), "the one below");
-        x = new CarriedHistory();
+    }
+
+    @Says(promise = 21, value = "NONE: no such ones.")
+    void ancestorNone() {
+        is(x.ancestor(0, 0), -1, "without COMMITS");
         store();
         takes(0, 4, j -> x.ancestor(j, 0), "the one above");
         takes(0, 4, k -> x.ancestor(0, k), "the one below");
         is(x.ancestor(5, 5), -1, "neither is there");
+        x = new CarriedHistory();
+        full();
+        takes(0, 119, j -> x.ancestor(j, 5), "the one above");
+        takes(0, 119, k -> x.ancestor(5, k), "the one below");
     }
 
     @Says(promise = 22, value = "BASES of COMMITS j and k (or j itself), what 0 how many, 10 + i (0 to 119) the i-th, rising;")
@@ -599,14 +725,21 @@ final class EdgesOfAsking extends Desk {
         is(x.base(119, 119, 10), 119, "itself");
     }
 
-    @Says(promise = 22, value = "-4: there are not so many; NONE: no such ones.")
-    void baseRefused() {
+    @Says(promise = 22, value = "-4: there are not so many;")
+    void baseNotSoMany() {
         commits(":", ":+a=1", "0,1:", "1,0:");
         is(x.base(2, 3, 11), 1, "the last one");
         is(x.base(2, 3, 12), -4, "one more");
         is(x.base(2, 3, 129), -4, "far more");
         is(x.base(0, 1, 10), -4, "of none");
+        is(x.base(0, 1, 129), -4, "of none");
         is(x.base(0, 0, 11), -4, "of one");
+    }
+
+    @Says(promise = 22, value = "NONE: no such ones.")
+    void baseNone() {
+        is(x.base(0, 0, 0), -1, "without COMMITS");
+        commits(":", ":+a=1", "0,1:", "1,0:");
         for (int what : new int[] {MIN, -1, 1, 2, 8, 9, 130, 131, MAX}) {
             is(x.base(2, 3, what), -1, "what " + what);
             is(x.base(0, 1, what), -1, "what " + what);
@@ -614,54 +747,88 @@ final class EdgesOfAsking extends Desk {
         takes(10, 129, what -> x.base(2, 3, what), "what");
         takes(0, 3, j -> x.base(j, 0, 0), "COMMIT");
         takes(0, 3, k -> x.base(0, k, 0), "COMMIT");
+        takes(0, 3, k -> x.base(0, k, 129), "COMMIT");
     }
 
-    @Says(promise = 23, value = "The fewest steps to a PARENT from COMMIT k to COMMIT j (itself: 0); -2: there is no way; NONE: no such ones.")
+    @Says(promise = 23, value = "The fewest steps to a PARENT from COMMIT k to COMMIT j (itself: 0);")
     void way() {
         full();
         is(x.way(0, 119), 119, "the longest way");
         is(x.way(118, 119), 1, "one step");
         is(x.way(119, 119), 0, "itself");
         is(x.way(0, 0), 0, "itself");
-        is(x.way(119, 118), -2, "down there is none");
-        takes(0, 119, j -> x.way(j, 0), "COMMIT j");
-        takes(0, 119, k -> x.way(0, k), "COMMIT k");
         x = new CarriedHistory();
-        commits(":", "0:", "1:", "2:", "3,0:", "4,2:", "0:+a=1", "6,5:", ":+b=1");
-        int[][] due = {{0, 4, 1}, {1, 4, 3}, {0, 5, 2}, {1, 5, 2}, {3, 5, 2}, {0, 7, 2}, {2, 7, 2}, {1, 7, 3}, {6, 5, -2}, {8, 7, -2},
-            {0, 8, -2}, {6, 7, 1}};
+        commits(":", "0:", "1:", "2:", "3,0:", "4,2:", "0:+a=1", "6,5:");
+        int[][] due = {{0, 4, 1}, {1, 4, 3}, {0, 5, 2}, {1, 5, 2}, {3, 5, 2}, {0, 7, 2}, {2, 7, 2}, {1, 7, 3}, {6, 7, 1}, {7, 7, 0}};
         for (int[] d : due) {
             is(x.way(d[0], d[1]), d[2], "way from " + d[1] + " to " + d[0]);
         }
-        takes(0, 8, j -> x.way(j, 7), "COMMIT j");
-        takes(0, 8, k -> x.way(0, k), "COMMIT k");
+        x = new CarriedHistory();
+        commits(":", "0:", "0:+a=1", "2:", "3,1:", "1,3:");
+        is(x.way(0, 4), 2, "one way is shorter by one step");
+        is(x.way(0, 5), 2, "the other way round");
     }
 
-    @Says(promise = 24, value = "Of a good and a bad COMMIT, what 0 how many are BETWEEN, 1 the one that is HALVING, 2 its WEIGHT (none BETWEEN: -2); NONE: no such ones.")
+    @Says(promise = 23, value = "-2: there is no way;")
+    void noWay() {
+        commits(":", "0:", "0:+a=1", "1,2:", ":+b=1");
+        int[][] none = {{1, 0}, {3, 0}, {1, 2}, {2, 1}, {3, 2}, {4, 3}, {0, 4}, {4, 0}};
+        for (int[] d : none) {
+            is(x.way(d[0], d[1]), -2, "way from " + d[1] + " to " + d[0]);
+        }
+        x = new CarriedHistory();
+        full();
+        is(x.way(119, 118), -2, "down there is none");
+        is(x.way(119, 0), -2, "down there is none");
+    }
+
+    @Says(promise = 23, value = "NONE: no such ones.")
+    void wayNone() {
+        is(x.way(0, 0), -1, "without COMMITS");
+        store();
+        takes(0, 4, j -> x.way(j, 4), "COMMIT j");
+        takes(0, 4, k -> x.way(0, k), "COMMIT k");
+        takes(0, 4, k -> x.way(4, k), "COMMIT k");
+        x = new CarriedHistory();
+        full();
+        takes(0, 119, j -> x.way(j, 0), "COMMIT j");
+        takes(0, 119, k -> x.way(0, k), "COMMIT k");
+    }
+
+    @Says(promise = 24, value = "Of a good and a bad COMMIT, what 0 how many are BETWEEN, 1 the one that is HALVING, 2 its WEIGHT (none BETWEEN: -2);")
     void halving() {
         full();
         int[][] due = {{0, 119, 119, 59, 59}, {118, 119, 1, 119, 1}, {117, 119, 2, 118, 1}, {119, 119, 0, -2, -2}, {119, 0, 0, -2, -2},
-            {0, 2, 2, 1, 1}, {0, 3, 3, 1, 1}, {63, 65, 2, 64, 1}, {9, 119, 110, 64, 55}};
+            {0, 0, 0, -2, -2}, {0, 2, 2, 1, 1}, {0, 3, 3, 1, 1}, {63, 65, 2, 64, 1}, {9, 119, 110, 64, 55}};
         for (int[] d : due) {
             for (int what = 0; what < 3; what++) {
                 is(x.halving(d[0], d[1], what), d[2 + what], "halving " + d[0] + " " + d[1] + " " + what);
             }
         }
-        takes(0, 119, good -> x.halving(good, 119, 0), "the good one");
-        takes(0, 119, bad -> x.halving(0, bad, 0), "the bad one");
-        takes(0, 2, what -> x.halving(0, 119, what), "what");
-        takes(0, 2, what -> x.halving(119, 0, what), "what of none BETWEEN");
         x = new CarriedHistory();
         commits(":", ":+a=1");
-        takes(0, 1, good -> x.halving(good, 0, 0), "the good one");
         is(x.halving(0, 1, 0), 1, "one without a way to the good one");
         is(x.halving(0, 1, 1), 1, "it is HALVING");
         is(x.halving(0, 1, 2), 1, "its WEIGHT");
     }
 
+    @Says(promise = 24, value = "NONE: no such ones.")
+    void halvingNone() {
+        is(x.halving(0, 0, 0), -1, "without COMMITS");
+        commits(":", ":+a=1");
+        takes(0, 1, good -> x.halving(good, 0, 0), "the good one");
+        takes(0, 1, bad -> x.halving(1, bad, 0), "the bad one");
+        x = new CarriedHistory();
+        full();
+        takes(0, 119, good -> x.halving(good, 119, 0), "the good one");
+        takes(0, 119, bad -> x.halving(0, bad, 0), "the bad one");
+        takes(0, 2, what -> x.halving(0, 119, what), "what");
+        takes(0, 2, what -> x.halving(119, 0, what), "what of none BETWEEN");
+    }
+
     // ---- 25 to 28 ----
 
-    @Says(promise = 25, value = "From the TREE of COMMIT j to that of k, what 0 GONE, 1 NEW, 2 CHANGED, 3 pairs RENAMED; NONE: no such ones.")
+    @Says(promise = 25, value = "From the TREE of COMMIT j to that of k, what 0 GONE, 1 NEW, 2 CHANGED, 3 pairs RENAMED;")
     void diff() {
         commits(":+a=1;+b=2;+c=345", "0:-a;+b=3;+d=1;+e=345;-c;+f=9", ":");
         int[][] due = {{0, 1, 2, 3, 1, 2}, {1, 0, 3, 2, 1, 2}, {0, 0, 0, 0, 0, 0}, {0, 2, 3, 0, 0, 0}, {2, 0, 0, 3, 0, 0}, {2, 2, 0, 0, 0, 0}};
@@ -676,15 +843,27 @@ final class EdgesOfAsking extends Desk {
         is(x.diff(3, 6, 0), 16, "the most GONE");
         is(x.diff(3, 6, 1), 16, "the most NEW");
         is(x.diff(3, 6, 3), 16, "the most RENAMED");
+        for (int what = 0; what < 4; what++) {
+            is(x.diff(6, 3, what), what == 2 ? 0 : 16, "the other way round");
+            is(x.diff(5, 3, what), what == 2 ? 0 : 8, "half of them");
+            is(x.diff(3, 5, what), what == 2 ? 0 : 8, "half of them, the other way round");
+        }
         is(x.diff(4, 6, 3), 0, "none RENAMED");
-        takes(0, 6, j -> x.diff(j, 0, 0), "COMMIT j");
-        takes(0, 6, k -> x.diff(0, k, 0), "COMMIT k");
+    }
+
+    @Says(promise = 25, value = "NONE: no such ones.")
+    void diffNone() {
+        is(x.diff(0, 0, 0), -1, "without COMMITS");
+        store();
+        takes(0, 4, j -> x.diff(j, 0, 0), "COMMIT j");
+        takes(0, 4, k -> x.diff(0, k, 0), "COMMIT k");
+        takes(0, 4, k -> x.diff(0, k, 3), "COMMIT k");
         takes(0, 3, what -> x.diff(0, 1, what), "what");
     }
 
-    @Says(promise = 26, value = "The i-th pair RENAMED (0 to 15, as they were found) from COMMIT j to k, what 0 the FILE in j, 1 the FILE in k, 2 the bits of their LIKENESS, 3 that in hundredths; -4: there are not so many; NONE: no such ones.")
+    @Says(promise = 26, value = "The i-th pair RENAMED (0 to 15, as they were found) from COMMIT j to k, what 0 the FILE in j, 1 the FILE in k, 2 the bits of their LIKENESS, 3 that in hundredths;")
     void renamed() {
-        commits(":+a=12345;+b=12345;+c=123;+d=77", ":+m=123456;+n=12345;+o=99999;+p=12;+q=1", ":");
+        commits(":+a=12345;+b=12345;+c=123;+d=77", ":+m=123456;+n=12345;+o=99999;+p=12;+q=1");
         float[] likeness = {1f, 10f / 11f, 4f / 5f};
         int[][] due = {{0, 1, 100}, {1, 0, 90}, {2, 3, 80}};
         for (int i = 0; i < 3; i++) {
@@ -694,12 +873,25 @@ final class EdgesOfAsking extends Desk {
             is(x.renamed(0, 1, i, 3), due[i][2], "hundredths of pair " + i);
             is(x.renamed(1, 0, i, 0), due[i][1], "the other way round");
         }
+    }
+
+    @Says(promise = 26, value = "-4: there are not so many;")
+    void renamedNotSoMany() {
+        commits(":+a=12345;+b=12345;+c=123;+d=77", ":+m=123456;+n=12345;+o=99999;+p=12;+q=1", ":");
         for (int what = 0; what < 4; what++) {
+            is(x.renamed(0, 1, 2, what) >= 0, true, "the last pair");
             is(x.renamed(0, 1, 3, what), -4, "one more");
             is(x.renamed(0, 1, 15, what), -4, "far more");
             is(x.renamed(0, 0, 0, what), -4, "of none");
             is(x.renamed(0, 2, 0, what), -4, "of none");
+            is(x.renamed(2, 0, 15, what), -4, "of none");
         }
+    }
+
+    @Says(promise = 26, value = "NONE: no such ones.")
+    void renamedNone() {
+        is(x.renamed(0, 0, 0, 0), -1, "without COMMITS");
+        commits(":+a=1", ":+b=1", ":");
         takes(0, 2, j -> x.renamed(j, 1, 0, 0), "COMMIT j");
         takes(0, 2, k -> x.renamed(0, k, 0, 0), "COMMIT k");
         takes(0, 15, i -> x.renamed(0, 1, i, 0), "pair");
@@ -708,7 +900,7 @@ final class EdgesOfAsking extends Desk {
         takes(0, 3, what -> x.renamed(0, 0, 0, what), "what of none");
     }
 
-    @Says(promise = 27, value = "LIKENESS of the CONTENTS of FILE i of COMMIT j and FILE m of COMMIT k, what 0 its bits, 1 in hundredths; -4: there are not so many FILES; NONE: no such ones (FILES 0 to 15).")
+    @Says(promise = 27, value = "LIKENESS of the CONTENTS of FILE i of COMMIT j and FILE m of COMMIT k, what 0 its bits, 1 in hundredths;")
     void likeness() {
         commits(":+a=123456;+b=1", ":+a=13;+b=7;+c=1", ":", ":+a=1;+b=1;+c=1;+d=1;+e=1;+f=1;+g=1;+h=1;+i=1;+j=1;+k=1;+l=1;+m=1;+n=1;+o=1;+p=12");
         int[][] due = {{0, 0, 4, 8}, {0, 1, 0, 7}, {0, 2, 2, 7}, {1, 0, 2, 3}, {1, 1, 0, 2}, {1, 2, 2, 2}};
@@ -722,20 +914,32 @@ final class EdgesOfAsking extends Desk {
         is(x.likeness(0, 0, 1, 0, 0), 0x3f000000, "bits of a half");
         is(x.likeness(3, 15, 3, 0, 1), 66, "FILE 15");
         is(x.likeness(3, 0, 3, 15, 1), 66, "FILE 15");
+    }
+
+    @Says(promise = 27, value = "-4: there are not so many FILES;")
+    void likenessNotSoMany() {
+        commits(":+a=123456;+b=1", ":+a=13;+b=7;+c=1", ":");
+        is(x.likeness(0, 1, 1, 2, 1), 100, "the last ones");
         is(x.likeness(0, 2, 1, 0, 0), -4, "one more than there are");
         is(x.likeness(0, 0, 1, 3, 0), -4, "one more than there are");
         is(x.likeness(2, 0, 0, 0, 0), -4, "of none");
         is(x.likeness(0, 0, 2, 0, 1), -4, "of none");
         is(x.likeness(0, 15, 1, 15, 0), -4, "far more");
-        takes(0, 3, j -> x.likeness(j, 0, 1, 0, 0), "COMMIT j");
-        takes(0, 3, k -> x.likeness(0, 0, k, 0, 0), "COMMIT k");
+    }
+
+    @Says(promise = 27, value = "NONE: no such ones (FILES 0 to 15).")
+    void likenessNone() {
+        is(x.likeness(0, 0, 0, 0, 0), -1, "without COMMITS");
+        commits(":+a=1", ":+b=1", ":");
+        takes(0, 2, j -> x.likeness(j, 0, 1, 0, 0), "COMMIT j");
+        takes(0, 2, k -> x.likeness(0, 0, k, 0, 0), "COMMIT k");
         takes(0, 15, i -> x.likeness(0, i, 1, 0, 0), "FILE i");
         takes(0, 15, m -> x.likeness(0, 0, 1, m, 0), "FILE m");
         takes(0, 1, what -> x.likeness(0, 0, 1, 0, what), "what");
         takes(0, 1, what -> x.likeness(2, 0, 2, 0, what), "what of none");
     }
 
-    @Says(promise = 28, value = "ORIGIN of FILE i (0 to 15) of COMMIT k, what 0 the COMMIT, 1 the FILE there, 2 at how many steps its CONTENT was unlike, 3 how many steps were RENAMED ones, 4 the bits of what it is WORN by; -4: there are not so many FILES; NONE: no such ones.")
+    @Says(promise = 28, value = "ORIGIN of FILE i (0 to 15) of COMMIT k, what 0 the COMMIT, 1 the FILE there, 2 at how many steps its CONTENT was unlike, 3 how many steps were RENAMED ones, 4 the bits of what it is WORN by;")
     void origin() {
         commits(":+a=1234;+b=5", "0:+a=1235", "1:*a>c", "2:+c=1255;*b>a", ":", "3,4:");
         long[][] due = {{5, 0, 0, 1, 0, 1, Float.floatToRawIntBits(1f)}, {5, 1, 0, 0, 2, 1, Float.floatToRawIntBits(6f / 8f * (6f / 8f))},
@@ -745,16 +949,29 @@ final class EdgesOfAsking extends Desk {
                 is(x.origin((int) d[0], (int) d[1], what), d[2 + what], "origin " + d[0] + " " + d[1] + " " + what);
             }
         }
+    }
+
+    @Says(promise = 28, value = "-4: there are not so many FILES;")
+    void originNotSoMany() {
+        commits(":+a=1234;+b=5", "0:", ":");
         for (int what = 0; what < 5; what++) {
-            is(x.origin(5, 2, what), -4, "one more than there are");
-            is(x.origin(5, 15, what), -4, "far more");
-            is(x.origin(4, 0, what), -4, "of none");
+            is(x.origin(1, 1, what) >= 0, true, "the last one");
+            is(x.origin(1, 2, what), -4, "one more than there are");
+            is(x.origin(1, 15, what), -4, "far more");
+            is(x.origin(2, 0, what), -4, "of none");
+            is(x.origin(2, 15, what), -4, "of none");
         }
-        takes(0, 5, k -> x.origin(k, 0, 0), "COMMIT");
-        takes(0, 15, i -> x.origin(5, i, 0), "FILE");
-        takes(0, 15, i -> x.origin(4, i, 0), "FILE of none");
-        takes(0, 4, what -> x.origin(5, 0, what), "what");
-        takes(0, 4, what -> x.origin(4, 0, what), "what of none");
+    }
+
+    @Says(promise = 28, value = "NONE: no such ones.")
+    void originNone() {
+        is(x.origin(0, 0, 0), -1, "without COMMITS");
+        commits(":+a=1234;+b=5", "0:", ":");
+        takes(0, 2, k -> x.origin(k, 0, 0), "COMMIT");
+        takes(0, 15, i -> x.origin(1, i, 0), "FILE");
+        takes(0, 15, i -> x.origin(2, i, 0), "FILE of none");
+        takes(0, 4, what -> x.origin(1, 0, what), "what");
+        takes(0, 4, what -> x.origin(2, 0, what), "what of none");
     }
 
     @Says(promise = 28, value = "2 at how many steps its CONTENT was unlike, 3 how many steps were RENAMED ones, 4 the bits of what it is WORN by;")
@@ -823,32 +1040,56 @@ final class EdgesOfAsking extends Desk {
         }
         branch(0, 'a', 119);
         is(touches(0, "a"), 120, "the most");
+        x = new CarriedHistory();
+        String all = ":+a=1;+b=1;+c=1;+d=1;+e=1;+f=1;+g=1;+h=1;+i=1;+j=1;+k=1;+l=1;+m=1;+n=1;+o=1;+p=1";
+        commits(all, "0:+p=2", "1:+a=2", "0,1:+a=3");
+        branch(0, 'a', 2);
+        branch(0, 'b', 3);
+        is(touches(0, "a"), 3, "the first of sixteen FILES");
+        is(touches(0, "p"), 2, "the last of sixteen FILES");
+        is(touches(0, "q"), 0, "none of sixteen FILES");
     }
 
-    @Says(promise = 29, value = "a FAULT: 1 what can't stand there; NONE: no such ones, it has not so many (the tape stays).")
-    void touchesRefused() {
+    @Says(promise = 29, value = "a FAULT: 1 what can't stand there;")
+    void touchesFaults() {
         store();
         String[] texts = {"/", "A", "1", "a/", "a//", "ab", "a/b/", "a/1", "a/b/c/d/e/", "a/b/c/d/e/1", "a.", "`", "{"};
         int[] due = {0, 0, 0, 2, 2, 1, 4, 2, 10, 10, 1, 0, 0};
         for (int i = 0; i < texts.length; i++) {
             String text = texts[i];
             refusedTold(() -> touches(0, text), -1000 - due[i], "touches " + text);
+            refusedTold(() -> touches(3, text), -1000 - due[i], "touches, without COMMITS, " + text);
         }
+        for (char sign = 0; sign < 256; sign++) {
+            int answer = touches(0, "a/" + sign);
+            is(answer < 0 ? answer : 0, sign < 'a' || sign > 'z' ? -1002 : 0, "byte " + (int) sign + " for a NAME");
+            answer = touches(0, "a" + sign + "x");
+            is(answer, sign == '/' ? 2 : -1001, "byte " + (int) sign + " for a /");
+        }
+    }
+
+    @Says(promise = 29, value = "NONE: no such ones, it has not so many (the tape stays).")
+    void touchesNone() {
+        store();
+        takes(0, 3, h -> {
+            tell("a");
+            return emptied(x.touches(h, 1));
+        }, "HISTORY");
         tell("a");
         for (int h : new int[] {MIN, -1, 4, MAX}) {
             refused(() -> x.touches(h, 1), -1, "HISTORY " + h);
         }
-        for (int n : new int[] {MIN, -1, 0, 12, 21, MAX}) {
+        for (int n : new int[] {MIN, -1, 0, 12, 20, 21, MAX}) {
             refused(() -> x.touches(0, n), -1, "n " + n);
         }
         is(x.touches(0, 1), 4, "what was told stays");
         refused(() -> x.touches(0, 1), -1, "one more than none");
         tell("?");
         refused(() -> x.touches(4, 1), -1, "asked ahead of a FAULT");
-        is(x.touches(3, 1), -1000, "a FAULT, though there are no COMMITS");
+        is(x.touches(3, 1), -1000, "what was told stays");
     }
 
-    @Says(promise = 30, value = "COMMITS of HISTORIES h and g (or h itself), what 0 in h alone, 1 in both, 2 in g alone, 3 REFS (kind and letter) of one alone, or at unlike COMMITS; NONE: no such ones.")
+    @Says(promise = 30, value = "COMMITS of HISTORIES h and g (or h itself), what 0 in h alone, 1 in both, 2 in g alone, 3 REFS (kind and letter) of one alone, or at unlike COMMITS;")
     void apart() {
         commits(":", "0:", "1:", "0:+a=1", ":+b=1");
         apart(0, 3, new int[] {0, 0, 0, 0});
@@ -873,8 +1114,15 @@ final class EdgesOfAsking extends Desk {
             x.ref(2, 1, i, 0);
         }
         apart(1, 2, new int[] {0, 1, 0, 16});
+    }
+
+    @Says(promise = 30, value = "NONE: no such ones.")
+    void apartNone() {
+        takes(0, 3, h -> x.apart(h, 0, 0), "HISTORY h without COMMITS");
+        store();
         takes(0, 3, h -> x.apart(h, 0, 0), "HISTORY h");
         takes(0, 3, g -> x.apart(0, g, 0), "HISTORY g");
+        takes(0, 3, g -> x.apart(0, g, 3), "HISTORY g");
         takes(0, 3, what -> x.apart(0, 1, what), "what");
     }
 
@@ -884,10 +1132,9 @@ final class EdgesOfAsking extends Desk {
         }
     }
 
-    @Says(promise = 31, value = "The lowest COMMIT of HISTORY h, not k, with a CHANGE as that of COMMIT k; -2: there is none; NONE: no such ones.")
+    @Says(promise = 31, value = "The lowest COMMIT of HISTORY h, not k, with a CHANGE as that of COMMIT k;")
     void picked() {
         commits(":+a=1", "0:+b=1", "1:-b", "2:+b=1", "3:-b", "4:+b=1", "5:-b", "0:");
-        is(x.picked(0, 1), -2, "of a HISTORY without COMMITS");
         branch(0, 'a', 6);
         int[] due = {-2, 3, 4, 1, 2, 1, 2, -2};
         for (int k = 0; k < due.length; k++) {
@@ -896,31 +1143,73 @@ final class EdgesOfAsking extends Desk {
         branch(1, 'a', 1);
         is(x.picked(1, 1), -2, "not k itself");
         is(x.picked(1, 3), 1, "k is not of the HISTORY");
-        is(x.picked(1, 2), -2, "there is none");
-        branch(3, 'a', 0);
-        is(x.picked(3, 0), -2, "k alone");
-        takes(0, 3, h -> x.picked(h, 0), "HISTORY");
-        takes(0, 7, k -> x.picked(0, k), "COMMIT");
+        commits(":+a=1");
+        is(x.picked(1, 8), 0, "the lowest of all");
     }
 
-    @Says(promise = 32, value = "COMMIT i (0 to 119) of THE LINE of COMMIT k; -4: there are not so many; NONE: no such ones.")
+    @Says(promise = 31, value = "-2: there is none;")
+    void pickedNone() {
+        commits(":+a=1", "0:+b=1", "1:-b", "2:+b=1", ":+b=1", "0:");
+        for (int h = 0; h < 4; h++) {
+            is(x.picked(h, 1), -2, "of a HISTORY without COMMITS");
+        }
+        branch(1, 'a', 1);
+        is(x.picked(1, 2), -2, "none has that CHANGE");
+        is(x.picked(1, 1), -2, "k alone has it");
+        is(x.picked(1, 5), -2, "none changes nothing");
+        branch(3, 'a', 0);
+        is(x.picked(3, 0), -2, "k alone is there");
+        branch(2, 'a', 3);
+        is(x.picked(2, 3), 1, "there is one");
+    }
+
+    @Says(promise = 31, value = "NONE: no such ones.")
+    void pickedNoSuchOnes() {
+        is(x.picked(0, 0), -1, "without COMMITS");
+        store();
+        takes(0, 3, h -> x.picked(h, 0), "HISTORY");
+        takes(0, 4, k -> x.picked(0, k), "COMMIT");
+        takes(0, 4, k -> x.picked(3, k), "COMMIT, of a HISTORY without COMMITS");
+    }
+
+    @Says(promise = 32, value = "COMMIT i (0 to 119) of THE LINE of COMMIT k;")
     void line() {
         store();
-        int[] due = {4, 2, 1, 0, -4, -4};
+        int[] due = {4, 2, 1, 0};
         for (int i = 0; i < due.length; i++) {
             is(x.line(4, i), due[i], "line " + i);
         }
         is(x.line(0, 0), 0, "itself alone");
+        x = new CarriedHistory();
+        full();
+        for (int i = 0; i < 120; i++) {
+            is(x.line(119, i), 119 - i, "line " + i + " of the longest");
+        }
+    }
+
+    @Says(promise = 32, value = "-4: there are not so many;")
+    void lineNotSoMany() {
+        store();
+        is(x.line(4, 3), 0, "the last one");
+        is(x.line(4, 4), -4, "one more");
+        is(x.line(4, 119), -4, "far more");
         is(x.line(0, 1), -4, "one more");
         is(x.line(0, 119), -4, "far more");
+        x = new CarriedHistory();
+        full();
+        is(x.line(118, 118), 0, "the last one");
+        is(x.line(118, 119), -4, "one more");
+    }
+
+    @Says(promise = 32, value = "NONE: no such ones.")
+    void lineNone() {
+        is(x.line(0, 0), -1, "without COMMITS");
+        store();
         takes(0, 119, i -> x.line(4, i), "COMMIT of the LINE");
         takes(0, 4, k -> x.line(k, 0), "COMMIT");
         takes(0, 4, k -> x.line(k, 119), "COMMIT");
         x = new CarriedHistory();
         full();
-        is(x.line(119, 119), 0, "the last one of the longest");
-        is(x.line(118, 118), 0, "the last one");
-        is(x.line(118, 119), -4, "one more");
         takes(0, 119, k -> x.line(k, 0), "COMMIT");
         takes(0, 119, i -> x.line(119, i), "COMMIT of the LINE");
     }
@@ -941,16 +1230,12 @@ final class EdgesOfAsking extends Desk {
         is(x.keep(), 120, "all");
     }
 
-    @Says(promise = 34, value = "UNDONE: true; false: nothing was SAVED.")
+    @Says(promise = 34, value = "UNDONE: true;")
     void undo() {
-        refused(() -> x.undo() ? 1 : 0, 0, "nothing was SAVED");
         commits(":+a=1");
         branch(0, 'a', 0);
         is(plan(0, "from:0;to:1"), 2, "plan");
         is(x.run(0), 1, "run");
-        tell("abc");
-        refused(() -> x.undo() ? 1 : 0, 0, "nothing was SAVED");
-        x.check(0);
         String before = all();
         is(x.keep(), 1, "keep");
         is(x.undo(), true, "at once");
@@ -977,6 +1262,22 @@ final class EdgesOfAsking extends Desk {
         branch(0, 'b', 3);
         is(x.undo(), true, "undo");
         is(all(), before, "all");
+    }
+
+    @Says(promise = 34, value = "false: nothing was SAVED.")
+    void undoOfNothing() {
+        refused(() -> x.undo() ? 1 : 0, 0, "at first");
+        commits(":+a=1");
+        branch(0, 'a', 0);
+        is(plan(0, "from:0;to:1"), 2, "plan");
+        is(x.run(0), 1, "run");
+        tell("abc");
+        refused(() -> x.undo() ? 1 : 0, 0, "with much that could be UNDONE");
+        is(x.keep(), 1, "keep");
+        is(x.undo(), true, "something was SAVED");
+        x = new CarriedHistory();
+        is(x.keep(), 0, "keep of nothing");
+        is(x.undo(), true, "nothing, but SAVED");
     }
 
     @Says(promise = 35, value = "CHECK by the first n bytes of the tape (0 to 120; empty then; COMMITS that are not there 255): NONE: right; else the first that is not so;")
@@ -1054,6 +1355,19 @@ final class EdgesOfAsking extends Desk {
             is(commit(b.toString(), 0, 0), k, "COMMIT " + k);
         }
         counts(new int[] {120, 0, 120, 1800, 0, 0});
+        x = new CarriedHistory();
+        for (int k = 0; k < 120; k++) {
+            StringBuilder b = new StringBuilder(":+p=000000");
+            for (int i = 0; i < 10; i++) {
+                int n = k * 10 + i;
+                b.append(";+").append((char) ('a' + i)).append('=').append(String.format("%06d", n % 244 * 4096 + n / 244));
+            }
+            is(commit(b.toString(), 0, 0), k, "COMMIT " + k);
+        }
+        counts(new int[] {120, 0, 120, 1200, 0, 0});
+        x = new CarriedHistory();
+        commits(":+a=0000;+b=4096;+c=8192;+d=0", ":+a=8192;+b=0000;+c=4096;+d=00");
+        counts(new int[] {2, 0, 2, 5, 0, 0});
     }
 
     private void counts(int[] due) {

@@ -157,6 +157,7 @@ final class EdgesOfCarrying extends Desk {
         tree(1, ";move:q/r/s/t>p/q/r/s", "d=2;p/q/r/s/b/c=1", 2, 0);
         tree(1, ";move:q/r/s>p/q/r/s", "d=2", 2, 1);
         tree(1, ";move:q/r/s/t>.", "b/c=1;d=2", 2, 0);
+        tree(1, ";move:.>.", "d=2;q/r/s/t/b/c=1", 2, 0);
     }
 
     @Says("or whose PATH then is that of a FILE taken over already (they come in order of their old PATHS; one LOST is not taken over), a BEGINNING of it, or has it as a BEGINNING.")
@@ -277,6 +278,21 @@ final class EdgesOfCarrying extends Desk {
         is(parents(8).split(",").length, 3, "by 2 all stay");
     }
 
+    @Says("by 3 as by 2, then, if there are two or more and TREE' is the TREE of some, the first such one alone stays.")
+    void mergesByThreeOfNone() {
+        commits(":+a=1", "0:+b=1", "0:+c=1", "1,2,0:-b", "0,1,2:", "1,0,2:-b", ":+d=1", "1,2,6:^1c", "6,2,1:-d;+a=1");
+        for (int k = 3; k < 9; k++) {
+            is(x.ref(0, 1, k, k) > 0, true, "TAG");
+        }
+        is(plan(0, "from:0;to:1;empty:0;merges:3"), 4, "plan");
+        is(x.run(0), 9, "run");
+        is(parents(3), "1,2", "what went by 2 does not stay for its TREE");
+        is(parents(4), "1,2", "what went by 2 does not stay for its TREE");
+        is(parents(5), "1,2", "what went by 2 does not stay for its TREE");
+        is(parents(7), "1,2,6", "three, the TREE of none");
+        is(parents(8), "6,2,1", "three, the TREE of none");
+    }
+
     /** COMMITS 0, 1, 2 of WHO 0 and the same once more, 3, 4, of WHO 1: by a sign their IMAGES are one. */
     @Says("(Whether one goes is asked of all ahead of that.)")
     void askedOfAllAhead() {
@@ -332,6 +348,10 @@ final class EdgesOfCarrying extends Desk {
         is(fate(3), EMPTY, "by its FORE it is not so by itself: the TREE there is another one");
         carry(4, ";graft:2>.;graft:3>.;drop:a;empty:1");
         is(fate(3), EMPTY, "without FORE it has FILES");
+        carry(6, ";graft:1>.;empty:1");
+        is(fate(6), KEPT, "it has FILES");
+        carry(3, ";graft:1>.;empty:1");
+        is(fate(1), KEPT, "without FORE and FILES it is so by itself");
         is(plan(0, "from:0;to:1;graft:5>2;empty:1"), 4, "plan");
         branch(0, 'b', 5);
         is(x.run(0) > 0, true, "run");
@@ -416,9 +436,9 @@ final class EdgesOfCarrying extends Desk {
             is(commit(i == 0 ? ":+a=1" : (i - 1) + ":", 0, i), i, "COMMIT " + i);
         }
         String[] told = {"#", "#0", "#00", "#01", "#000", "#001", "#1", "#10", "#010", "#100", "#0100", "#1000", "#0a", "#a0",
-            "##0", "#0#", "#101", "#102"};
+            "##0", "#0#", "#101", "#102", "ab", "zz9", "a0", "xb#0xb", "0", "101"};
         String[] due = {"#", "#I", "#00", "#01", "#000", "#001", "#I", "#I", "#010", "#I", "#0100", "#1000", "#Ia", "#a0",
-            "##I", "#I#", "#I", "#102"};
+            "##I", "#I#", "#I", "#102", "ab", "zz9", "a0", "xb#Ixb", "0", "101"};
         x.keep();
         for (int i = 0; i < told.length; i++) {
             x.undo();
@@ -427,6 +447,22 @@ final class EdgesOfCarrying extends Desk {
             is(message(102), due[i].replace("I", "?"), "of one without IMAGE: " + told[i]);
             carry(102, ";sign:1>2");
             is(message(102), due[i].replace("I", "0"), "of EMPTY ones: " + told[i]);
+        }
+    }
+
+    @Says("A MENTION is a # and the digits behind it (as many as there are), one to three, the first a 0 only if it is alone;")
+    void allMentions() {
+        for (int i = 0; i < 113; i++) {
+            is(commit(i == 0 ? ":+a=0" : (i - 1) + ":+a=" + i, 0, 0), i, "COMMIT " + i);
+        }
+        x.keep();
+        for (int i = 0; i < 1000; i++) {
+            x.undo();
+            is(commit("112:+a=123456:#" + i, 1, 0), 113, "COMMIT 113");
+            carry(113, ";skip:0;sign:1>2");
+            is(message(113), i < 113 ? "#?" : "#" + i, "#" + i + " of ELDERS without IMAGE");
+            carry(113, ";sign:1>2");
+            is(message(113), "#" + i, "#" + i + " of ELDERS that are their own IMAGES");
         }
     }
 
@@ -462,6 +498,10 @@ final class EdgesOfCarrying extends Desk {
         is(message(1), "yyyy#yyyy1aa", "behind a #, between digits");
         is(message(2), "123#4#b", "digits stay");
         is(message(3), "zabz", "what is in the middle is none");
+        carry(3, ";word:zabz>q;word:zz>y;word:z>x");
+        is(message(3), "q", "z is a letter as others are");
+        carry(3, ";word:z>x;word:ab>q;word:bz>y");
+        is(message(3), "zabz", "what is at its ends is none");
         carry(3, ";word:abcd>abc;word:abc>abcd");
         is(message(0), "abc1abcde", "once");
         carry(3, ";empty:0");
@@ -513,6 +553,28 @@ final class EdgesOfCarrying extends Desk {
         is(x.planIs(0, 8), 4, "what was MAPPED stays");
     }
 
+    @Says("A RUN: the COMMITS of the PLAN that are not MAPPED yet are REWRITTEN, rising (and MAPPED, with or without IMAGE).")
+    void runsByTurns() {
+        commits(":+a=1", "0:+b=1");
+        branch(0, 'a', 1);
+        for (int p = 0; p < 4; p++) {
+            is(plan(p, "from:0;to:" + (p == 2 ? 3 : p == 3 ? 2 : 1) + ";move:a>" + (char) ('k' + p)), 3, "plan");
+            is(x.run(p), 2, "run");
+            is(x.image(p, 0, 0) * 100 + x.image(p, 1, 0), 203 + 202 * p, "IMAGES");
+        }
+        commits("1:+c=1", "10:+d=1:#0#1#10");
+        is(x.count(0), 12, "COMMITS");
+        branch(0, 'a', 11);
+        for (int p = 3; p >= 0; p--) {
+            is(x.run(p), 2, "it goes on");
+            is(x.image(p, 0, 0) * 100 + x.image(p, 1, 0), 203 + 202 * p, "IMAGES stay");
+            is(spelt(x.image(p, 10, 0)).split(":")[0], "" + (3 + 2 * p), "its PARENT is of this PLAN");
+            is(spelt(x.image(p, 10, 0)).split(":")[1], "b=1;c=1;" + (char) ('k' + p) + "=1", "its TREE");
+            is(spelt(x.image(p, 11, 0)).split(":")[2], "#" + x.image(p, 0, 0) + "#" + x.image(p, 1, 0) + "#" + x.image(p, 10, 0),
+                "what it names is of this PLAN");
+        }
+    }
+
     @Says("Then those REFS of the to HISTORY go that a PLAN of this number laid last (none told, laid since);")
     void refsThatGo() {
         commits(":+a=1", "0:+b=1");
@@ -556,6 +618,11 @@ final class EdgesOfCarrying extends Desk {
         is(x.run(2), 3, "run");
         is(refs(1), "ba2 bb3/2 bc3/2 bd2", "none without IMAGE, in place, beside, untouched");
         is(refs(0), "ba0 bb1 bc2", "REFS of from stay");
+        for (int tags = 0; tags < 3; tags++) {
+            is(plan(2, "from:0;to:" + (tags + 1) + ";drop:b;tags:" + tags) > 0, true, "plan");
+            is(x.run(2), 3, "run");
+            is(refs(tags + 1), tags == 0 ? "ba2 bb3/2 bc3/2 bd2" : "bb3/2 bc3/2", "BRANCHES by tags " + tags);
+        }
     }
 
     @Says("TAGS so, too: by tags 0 none, by 1 those alone whose COMMIT is KEPT, by 2 all.")

@@ -104,7 +104,11 @@ final class EdgesOfCommits extends Desk {
         fault("1:+q=1", -4002);
         is(commit("1:+p=2", 0, 0), 2, "one of a PATH that is there");
         is(x.commitIs(2, 3), 16, "FILES");
+        is(look(2, "p", 0), 1, "the last one");
+        is(look(2, "q", 0), 0, "none behind it");
         is(commit(":+a=1;+a=2;+a=3", 0, 0), 3, "one PATH told three times");
+        is(commit("1:+a=2", 0, 0), 4, "the first of sixteen told anew");
+        is(spelt(4), "1:a=2" + SIXTEEN.replace("+", "").substring(4) + ":", "in place");
         is(spelt(3), ":a=3:", "is one FILE");
     }
 
@@ -388,6 +392,12 @@ final class EdgesOfCommits extends Desk {
         is(spelt(3), "0:a=1;b/a=1;c/d=2:", "out of a FOLDER");
         is(spelt(4), "0:a=1;q/b/a=1;q/b/c/d=2:", "into one");
         is(spelt(5), "0:b/a=1;b/c/d=2;b/z/z/z=1:", "into one that is there");
+        is(commit("0:*b>z;-z/c;*z>b", 0, 9), 6, "to and fro, with one gone in between");
+        is(spelt(6), "0:a=1;b/a=1:", "what went does not come back");
+        is(commit(":+b/a=1;*b>c", 0, 9), 7, "less than was moved ahead");
+        is(spelt(7), ":c/a=1:", "that alone");
+        is(commit(":+b/a=1;+b/b=1;*b>c;-c/b;*c>d", 0, 9), 8, "less than was moved ahead");
+        is(spelt(8), ":d/a=1:", "that alone");
         only("0:*", LETTERS);
         only("0:*a", "/>");
         only("0:*f/g", "/>");
@@ -688,6 +698,10 @@ final class EdgesOfCommits extends Desk {
         fault("2:*p/q/r>p/q/s/t", -5002);
         fault("2:*p/q>z/y/x", -5002);
         is(commit("2:*p/q>z", 0, 0), 5, "one less");
+        is(commit("0:-a/b;*a>p/q/r/s", 0, 0), 6, "what went counts no more");
+        is(spelt(6), "0:p/q/r/s/e=1:", "five NAMES");
+        is(commit("0:*a/e>a/a;-a/b;*a>p/q/r/s", 0, 0), 7, "what went counts no more");
+        is(spelt(7), "0:p/q/r/s/a=1:", "five NAMES");
     }
 
     @Says("4 there would be more than 16 FILES.")
@@ -699,7 +713,7 @@ final class EdgesOfCommits extends Desk {
         fault("2,1:^1y", -4004);
         fault("0,1:^1y/a", -4004);
         is(commit("2:+q=1", 0, 0), 4, "sixteen");
-        is(commit("0:+p=2", 0, 0), 5, "in place of one");
+        is(commit("0:+p=2", 0, 0), 5, "in place of the last one");
         is(commit("2,1:^1y/a", 0, 0), 6, "sixteen by a ^");
         is(commit("3,1:^1y", 0, 0), 7, "sixteen by a ^ of two");
         is(x.commitIs(7, 3), 16, "FILES");
@@ -707,6 +721,7 @@ final class EdgesOfCommits extends Desk {
         fault("7,1:-y/b;+q=1;^1y", -4014);
         is(commit("7,1:^1y", 0, 0), 9, "two in place of two");
         is(commit("0:*a>z/z", 0, 0), 10, "a move adds none");
+        is(commit("0:+a=2", 0, 0), 11, "in place of the first one");
         fault(SIXTEEN + ";+q=1", -4081);
     }
 }

@@ -409,6 +409,15 @@ final class EdgesOfPlans extends Desk {
             lines(word + ":1", -1012);
             lines(word, -1012);
         }
+        for (String word : new String[] {"from", "to", "keep", "drop", "move", "swap", "word", "graft", "sign", "skip", "merges",
+            "empty", "tags", "since", "most"}) {
+            for (int i = 0; i < word.length(); i++) {
+                String other = word.substring(0, i) + "x" + word.substring(i + 1);
+                planFault(other + ":0;to:1", -1000);
+                planFault("from:0;" + other + ":1", -1007);
+                lines(other + ":1>1", -1012);
+            }
+        }
         planFault("from", -1004);
         planFault("from:0;to", -1009);
         lines("keep", -1016);
@@ -488,6 +497,11 @@ final class EdgesOfPlans extends Desk {
             lines(one + ";" + word + ":9", due);
             lines(one + ";" + word + "x:1", -1013 - one.length());
             lines(one + ";skip:1;" + one, due - 7);
+            for (String other : words) {
+                if (!other.equals(word)) {
+                    lines(one + ";" + other + ":1;" + one, due - other.length() - 3);
+                }
+            }
             told(one, 3);
         }
         told("merges:1;empty:1;tags:1;since:1;most:1", 7);

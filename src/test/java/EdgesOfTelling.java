@@ -248,31 +248,44 @@ final class EdgesOfTelling extends Desk {
         is(x.refIs(1, 0, 3), -2, "told since");
     }
 
-    @Says(promise = 5, value = "k -1: it goes: how many REFS there are; -4: there is none to go;")
-    void refGoes() {
+    @Says(promise = 5, value = "-4: there is none to go;")
+    void noRefToGo() {
+        refused(() -> x.ref(0, 0, 0, -1), -4, "without COMMITS");
         commits(":");
-        refused(() -> x.ref(0, 0, 0, -1), -4, "of none");
+        for (int h = 0; h < 4; h++) {
+            int its = h;
+            refused(() -> x.ref(its, 0, 0, -1), -4, "of none");
+            refused(() -> x.ref(its, 1, 25, -1), -4, "of none");
+        }
         branch(0, 'a', 0);
         refused(() -> x.ref(0, 1, 0, -1), -4, "a TAG of its letter");
         refused(() -> x.ref(0, 0, 1, -1), -4, "of another letter");
         refused(() -> x.ref(1, 0, 0, -1), -4, "of another HISTORY");
+        is(x.ref(0, 0, 0, -1), 0, "it goes");
+        refused(() -> x.ref(0, 0, 0, -1), -4, "it is gone");
+        for (int i = 0; i < 8; i++) {
+            is(x.ref(0, 0, i, 0), i + 1, "REFS");
+        }
+        refused(() -> x.ref(0, 0, 8, -1), -4, "of eight other ones");
+        refused(() -> x.ref(0, 1, 0, -1), -4, "of eight other ones");
+    }
+
+    @Says(promise = 5, value = "k -1: it goes: how many REFS there are;")
+    void refGoes() {
+        commits(":");
+        branch(0, 'a', 0);
         tag(0, 'a', 0);
         is(x.ref(0, 0, 0, -1), 1, "the BRANCH goes");
         is(refs(0), "ta0", "REFS");
-        refused(() -> x.ref(0, 0, 0, -1), -4, "it is gone");
         is(x.ref(0, 1, 0, -1), 0, "the TAG goes");
         is(x.count(0), 1, "COMMITS stay");
         for (int i = 0; i < 8; i++) {
             is(x.ref(0, 0, i, 0), i + 1, "REFS");
         }
-        refused(() -> x.ref(0, 0, 8, -1), -4, "of eight other ones");
         is(x.ref(0, 0, 7, -1), 7, "the last one goes");
         is(x.ref(0, 0, 0, -1), 6, "the first one goes");
         is(x.ref(0, 0, 3, -1), 5, "one in the middle goes");
         is(refs(0), "bb0 bc0 be0 bf0 bg0", "REFS");
-        is(x.ref(2, 0, 0, 0), 1, "a REF");
-        x = new CarriedHistory();
-        is(x.ref(0, 0, 0, -1), -4, "without COMMITS");
     }
 
     @Says(promise = 5, value = "-5: there would be more than 8;")
@@ -461,14 +474,34 @@ final class EdgesOfTelling extends Desk {
     }
 
     @Says(promise = 7, value = "-2, -3, -5 (what was MAPPED stays so), NONE as run().")
-    void againRefused() {
-        takes(0, 3, p -> x.again(p), "PLAN none of which is told");
-        refused(() -> x.again(0), -2, "none is told");
+    void againWithoutPlan() {
+        commits(":+a=1");
+        branch(0, 'a', 0);
+        for (int p = 0; p < 4; p++) {
+            int its = p;
+            refused(() -> x.again(its), -2, "PLAN " + p);
+        }
+        is(plan(0, "from:0;to:1"), 2, "PLAN 0");
+        is(x.again(0), 0, "PLAN 0");
+        refused(() -> x.again(1), -2, "PLAN 1");
+    }
+
+    @Says(promise = 7, value = "-2, -3, -5 (what was MAPPED stays so), NONE as run().")
+    void againInAFullStore() {
         nearlyFull(116);
         is(x.run(0), 2, "run");
         branch(0, 'a', 0);
         is(x.again(0), 0, "118 COMMITS");
         is(x.planIs(0, 8), 1, "MAPPED");
+        commits("1:+a=3");
+        branch(0, 'a', 118);
+        is(x.again(0), 1, "just 120 COMMITS");
+        is(x.planIs(0, 8), 3, "MAPPED");
+        x = new CarriedHistory();
+        nearlyFull(116);
+        is(x.run(0), 2, "run");
+        branch(0, 'a', 0);
+        is(x.again(0), 0, "118 COMMITS");
         fill(119);
         commits("1:+a=3");
         branch(0, 'a', 119);
@@ -476,19 +509,39 @@ final class EdgesOfTelling extends Desk {
         is(x.planIs(0, 8), 1, "what was MAPPED stays so");
         is(x.image(0, 0, 0), 116, "its IMAGE");
         is(x.image(0, 1, 0), -4, "no more");
-        branch(0, 'a', 1);
-        for (int i = 1; i < 7; i++) {
-            is(x.ref(0, 0, i, 0), i + 1, "REFS of from");
-        }
-        is(x.ref(1, 1, 0, 0), 3, "REFS of to");
+    }
+
+    @Says(promise = 7, value = "-2, -3, -5 (what was MAPPED stays so), NONE as run().")
+    void againWithManyRefs() {
+        manyRefs(4, 4);
+        is(x.again(0), 1, "just eight REFS");
+        is(x.historyIs(1, 0), 8, "REFS");
+        is(x.again(0), 0, "those that it laid go first");
+        commits("0:+c=1");
+        is(x.ref(0, 0, 0, 2), 4, "elsewhere");
+        is(x.ref(0, 0, 4, 2), 5, "one more");
         refused(() -> x.again(0), -5, "nine REFS");
         is(x.planIs(0, 8), 1, "what was MAPPED stays so");
-        branch(0, 'a', 119);
+        is(x.image(0, 0, 0), 1, "its IMAGE");
+        is(x.image(0, 2, 0), -4, "no more");
+        is(x.count(0), 3, "no COMMIT came");
+        fill(120);
         refused(() -> x.again(0), -3, "both");
-        is(x.ref(1, 1, 0, -1), 2, "a REF goes");
-        branch(0, 'a', 1);
+        is(x.ref(0, 0, 0, 0), 5, "where it was");
+        is(x.ref(0, 0, 4, 0), 5, "there, too");
+        refused(() -> x.again(0), -5, "nine REFS");
+        is(x.ref(0, 0, 4, -1), 4, "one goes");
         is(x.again(0), 0, "eight REFS");
-        is(x.historyIs(1, 0), 8, "REFS");
+    }
+
+    @Says(promise = 7, value = "-2, -3, -5 (what was MAPPED stays so), NONE as run().")
+    void againNone() {
+        takes(0, 3, p -> x.again(p), "PLAN, none of which is told");
+        commits(":+a=1");
+        branch(0, 'a', 0);
+        for (int p = 0; p < 4; p++) {
+            is(plan(p, "from:0;to:1"), 2, "plan");
+        }
         takes(0, 3, p -> x.again(p), "PLAN");
     }
 
@@ -678,6 +731,17 @@ final class EdgesOfTelling extends Desk {
         is(refs(0), "bz1/1", "laid");
         is(x.replay(0, 25, 2), 4, "replayed");
         is(refs(0), "bz4", "told since");
+    }
+
+    @Says(promise = 9, value = "A REPLAY of COMMIT k onto BRANCH a (a letter) of HISTORY h, which is told to be at it then: its number;")
+    void replayedGone() {
+        commits(":+a=1;+b=2;+c=3;+d=4", "0:-b", "0:-b;-c", "0:-a", "0:-d", "0:-a;-b;-c;-d", "0:+e=5");
+        String[] due = {"a=1;c=3;d=4;z=7", "a=1;d=4;z=7", "b=2;c=3;d=4;z=7", "a=1;b=2;c=3;z=7", "z=7", "a=1;b=2;c=3;d=4;e=5;z=7"};
+        for (int k = 1; k < 7; k++) {
+            branch(0, 'a', commit("0:+z=7", 3, 9));
+            is(x.commitIs(5, 8), 4, "another CHANGE is asked ahead");
+            is(spelt(x.replay(0, 0, k)).split(":")[1], due[k - 1], "replay of " + spelt(k));
+        }
     }
 
     @Says(promise = 9, value = "-4: there is no such BRANCH;")

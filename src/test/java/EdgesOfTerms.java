@@ -89,6 +89,12 @@ final class EdgesOfTerms extends Desk {
             is(x.diff(0, 3, 3), 0, "what is not GONE is not RENAMED");
             is(x.diff(3, 2, 3), 0, "what is not NEW is not RENAMED");
         }
+        x = new CarriedHistory();
+        commits(":+a=123;+b=9", ":+b=123", ":+b=9;+c=9");
+        is(x.diff(0, 1, 3), 0, "one GONE and one CHANGED");
+        is(x.diff(1, 0, 3), 0, "one NEW and one CHANGED");
+        is(x.diff(1, 2, 3), 0, "one NEW and one CHANGED");
+        is(x.diff(2, 0, 3), 0, "of unlike CONTENTS");
     }
 
     @Says("the greatest first (of like ones the lowest one GONE, then the lowest NEW), each FILE once.")
@@ -162,6 +168,13 @@ final class EdgesOfTerms extends Desk {
         commits("6:+e=555", ":+a=1;+b=2", "12:-a;-b;+a=1");
         origin(11, 2, 11, 2, 0, 0);
         origin(13, 0, 12, 0, 0, 0);
+        x = new CarriedHistory();
+        commits(":+a=111;+b=222;+c=333", "0:*a>x;*b>y;*c>z;+w=444", ":+w=9", "2:+v=111");
+        for (int i = 0; i < 3; i++) {
+            origin(1, i + 1, 0, i, 0, 1);
+        }
+        origin(1, 0, 1, 0, 0, 0);
+        origin(3, 0, 3, 0, 0, 0);
     }
 
     @Says("It is WORN by a float: 1, times the LIKENESS of both CONTENTS at each step.")
@@ -251,6 +264,14 @@ final class EdgesOfTerms extends Desk {
         branch(3, 'a', 6);
         branch(3, 'b', 2);
         list(3, "2 6 4 1 0");
+        x = new CarriedHistory();
+        is(commit(":", 0, 5), 0, "0");
+        is(commit(":", 0, 4), 1, "1");
+        is(commit(":", 0, 6), 2, "2");
+        for (int k = 0; k < 3; k++) {
+            x.ref(0, 0, k, k);
+        }
+        list(0, "2 0 1");
     }
 
     private void list(int h, String due) {
@@ -465,6 +486,40 @@ final class EdgesOfTerms extends Desk {
         commits(":+r=1");
         is(x.undo(), true, "undo");
         is(x.count(0), 3, "as SAVED last");
+    }
+
+    @Says("UNDONE: as they were SAVED last.")
+    void nothingIsLeftOfWhatIsUndone() {
+        commits(":+a=1", "0:", "1:");
+        x.keep();
+        commits("2:+b/c/d=1;+b/e=2;+z=3;*a>q:message");
+        branch(0, 'a', 3);
+        carry(3, ";move:b>c");
+        is(x.undo(), true, "undo");
+        is(commit(":+b/e=2", 0, 3), 3, "another COMMIT of that number");
+        is(spelt(3), ":b/e=2:", "as told");
+        int[] due = {0, 0, 3, 1, 0, 0, 0, 0, 1};
+        for (int what = 0; what < due.length; what++) {
+            is(x.commitIs(3, what), due[what], "commitIs " + what);
+        }
+        for (int j = 0; j < 4; j++) {
+            is(x.ancestor(j, 3), 0, "no ANCESTOR");
+        }
+        is(look(3, "z", 0), 0, "nothing at z");
+        is(look(3, "q", 1), 0, "nothing at q");
+        is(look(3, "b", 2), 1, "no FOLDER in b");
+        is(x.likeness(3, 1, 0, 0, 0), -4, "no FILE 1");
+        is(x.diff(0, 3, 0) * 10 + x.diff(0, 3, 1), 11, "one GONE, one NEW");
+        is(x.diff(3, 0, 0) * 10 + x.diff(3, 0, 1), 11, "one GONE, one NEW");
+        branch(1, 'a', 3);
+        is(touches(1, "z") + touches(1, "q"), 0, "it TOUCHES neither");
+        is(commit("3:", 0, 4), 4, "a CHILD");
+        branch(1, 'a', 4);
+        is(touches(1, "b"), 1, "COMMIT 3 alone");
+        is(x.undo(), true, "undo");
+        is(commit("0:-a;+b/e=2", 0, 3), 3, "another COMMIT of that number");
+        is(x.commitIs(3, 5), 1, "GENERATION");
+        is(x.commitIs(3, 6), 1, "ANCESTORS");
     }
 
     @Says("CHECK: how many FILES COMMITS have, from 0 on: right, or the first that is not so.")
