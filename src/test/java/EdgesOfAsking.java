@@ -284,6 +284,27 @@ final class EdgesOfAsking extends Desk {
         is(x.planIs(0, 12), 0, "none is without IMAGE, COMMIT 0 neither");
     }
 
+    @Says(promise = 13, value = "8 COMMITS MAPPED, 9 of these KEPT, 10 EMPTY, 11 SKIPPED, 12 without IMAGE,")
+    void planIsOfWhatIsMapped() {
+        is(commit(":+a=1", 1, 1), 0, "COMMIT 0");
+        is(commit(":+b=1", 2, 1), 1, "COMMIT 1");
+        is(commit("0:+c=1", 1, 2), 2, "COMMIT 2");
+        is(commit("2:+a=2", 2, 2), 3, "COMMIT 3");
+        is(commit("3:", 1, 3), 4, "COMMIT 4");
+        is(commit("4:+a=3", 1, 3), 5, "COMMIT 5");
+        branch(0, 'b', 1);
+        String[] lines = {"", ";drop:b", ";skip:1", ";skip:1;keep:a", ";keep:a;skip:2", ";skip:1;skip:2", ";keep:q", ";keep:a;empty:0"};
+        int[][] due = {{5, 1, 0, 0}, {4, 2, 0, 1}, {2, 1, 3, 2}, {1, 2, 3, 3}, {3, 2, 1, 1}, {0, 0, 6, 6}, {0, 6, 0, 6}, {6, 0, 0, 0}};
+        for (int i = 0; i < lines.length; i++) {
+            carry(5, lines[i]);
+            is(x.planIs(0, 8), 6, "MAPPED by " + lines[i]);
+            for (int what = 9; what < 13; what++) {
+                is(x.planIs(0, what), due[i][what - 9], "planIs " + what + " by " + lines[i]);
+            }
+            is(x.share(0), Double.doubleToRawLongBits(due[i][0] / 6.0), "share by " + lines[i]);
+        }
+    }
+
     @Says(promise = 13, value = "-2: none is told;")
     void planIsNotTold() {
         for (int p = 0; p < 4; p++) {
@@ -505,6 +526,26 @@ final class EdgesOfAsking extends Desk {
         is(x.run(1) > 0, true, "run");
         is(x.planIs(1, 9), 3, "KEPT");
         is(x.sound(1, 3), 2, "those of what is EMPTY do not count");
+    }
+
+    @Says(promise = 17, value = "3 FILES LOST, those of all KEPT,")
+    void lostInAll() {
+        commits(":+a=1;+b=2;+c=3", "0:+d=4;+z=1", "1:-a;-b;-c", "2:+a=1;+b=1;+c=1");
+        branch(0, 'a', 3);
+        is(plan(1, "from:0;to:1;move:a>z;move:b>z;move:c>z;move:d>z"), 6, "plan");
+        int[] due = {2, 4, 1, 4};
+        for (int k = 0; k < 4; k++) {
+            is(x.tried(1, k, 2), due[k], "LOST of COMMIT " + k);
+        }
+        is(x.run(1), 4, "run");
+        int[] kept = {0, 1, 0, 0};
+        for (int k = 0; k < 4; k++) {
+            is(x.image(1, k, 1), kept[k], "what COMMIT " + k + " is");
+        }
+        is(x.sound(1, 3), 7, "those of COMMITS 0, 2 and 3");
+        is(plan(1, "from:0;to:1;empty:0;move:a>z;move:b>z;move:c>z;move:d>z"), 7, "plan");
+        is(x.run(1), 4, "run");
+        is(x.sound(1, 3), 11, "those of all");
     }
 
     private void sound(int p, int[] due, String when) {

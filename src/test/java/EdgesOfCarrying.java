@@ -243,6 +243,28 @@ final class EdgesOfCarrying extends Desk {
         is(parents(5).split(",").length, 2, "by a graft it is no ANCESTOR");
     }
 
+    @Says("by 1 those go that are an ANCESTOR of another one while the COMMIT of its FORE that it counts as is no ELDER of that one's;")
+    void mergesByElders() {
+        is(commit(":+a=1", 0, 0), 0, "COMMIT 0");
+        is(commit(":+a=1", 1, 0), 1, "COMMIT 1");
+        is(commit("0:+b=1", 0, 2), 2, "COMMIT 2");
+        is(commit("0,2:+c=1", 0, 3), 3, "COMMIT 3");
+        carry(3, ";sign:1>0;graft:2>1");
+        is(image(1), 0, "one IMAGE of COMMITS 0 and 1");
+        is(image(2), 2, "its PARENT is COMMIT 0 again");
+        is(parents(3), "2", "COMMIT 0 is an ANCESTOR of COMMIT 2, but no ELDER by the graft");
+        carry(3, ";sign:1>0");
+        is(parents(3), "0,2", "without the graft it is an ELDER");
+        x = new CarriedHistory();
+        commits(":+a=1", ":+b=1", "0,1:+c=1", "1,0:+c=1");
+        branch(0, 'b', 3);
+        carry(2, ";graft:1>0");
+        is(parents(2), "0," + image(1), "COMMIT 0 is no ANCESTOR of COMMIT 1, but an ELDER by the graft");
+        is(parents(3), image(1) + ",0", "the other way round");
+        carry(2, ";graft:1>0;merges:2");
+        is(parents(2), "" + image(1), "by 2 it goes");
+    }
+
     @Says("by 2 those that are an ANCESTOR of another one;")
     void mergesByTwo() {
         aside();
@@ -374,6 +396,14 @@ final class EdgesOfCarrying extends Desk {
                 is(fate(k), due[i][k], "what COMMIT " + k + " is by " + lines[i]);
             }
         }
+        String[] both = {";skip:4;since:10", ";since:11;skip:5", ";skip:5;since:10", ";skip:3;since:9"};
+        int[][] dueOfBoth = {{2, 2, 0, 2, 2}, {2, 2, 2, 2, 2}, {2, 0, 2, 2, 2}, {2, 0, 0, 0, 1}};
+        for (int i = 0; i < both.length; i++) {
+            carry(4, both[i]);
+            for (int k = 0; k < 5; k++) {
+                is(fate(k), dueOfBoth[i][k], "what COMMIT " + k + " is by " + both[i]);
+            }
+        }
         carry(4, ";since:9;skip:9;skip:0;sign:3>9");
         is(x.planIs(0, 11), 0, "none is below, none of these WHO");
         carry(4, ";since:0");
@@ -490,6 +520,22 @@ final class EdgesOfCarrying extends Desk {
         is(image(0) > 100, true, "of three digits");
     }
 
+    @Says("of one that names an ELDER the digits become the number of its IMAGE (none: a ?).")
+    void mentionsOfOthers() {
+        commits(":+a=1", "0:+b=1", "0:+c=1", "1:+d=1:#2#1#0", "2:+e=1:#1#2#3#0", "3,4:+f=1:#1#2#3#4");
+        branch(0, 'b', 4);
+        carry(3, ";move:a>z");
+        is(image(2) > 5, true, "MAPPED, with another IMAGE");
+        is(message(3), "#2#" + image(1) + "#" + image(0), "what is MAPPED, but no ELDER, stays");
+        is(message(4), "#1#" + image(2) + "#3#" + image(0), "what is MAPPED, but no ELDER, stays");
+        carry(5, ";move:a>z");
+        String due = "";
+        for (int k = 1; k < 5; k++) {
+            due += "#" + image(k);
+        }
+        is(message(5), due, "ELDERS by both PARENTS");
+    }
+
     @Says("Letters (as many as stand there) that are the first WORD of a word become its second one. All else stays.")
     void wordsOfAMessage() {
         commits(":+a=1:abcd1abcde", "0:+a=2:a#a1aa", "1:+a=3:123#4#abc", "2:+a=4:zabz");
@@ -527,6 +573,21 @@ final class EdgesOfCarrying extends Desk {
         carry(2, ";word:b>w;move:a>d");
         is(image(0), 103, "an IMAGE of three digits");
         is(message(2), "w#103w#103w#103w#103", "20 bytes stay");
+    }
+
+    @Says("What is behind the 24th byte then is cut off.")
+    void cutOffInThePieces() {
+        commits(":+a=1", "0:+a=2:1b#0#0#0#0#0", "0:+a=3:b1b1#0#0#0#0", "0:+a=4:b1b1b1#0#0#0", "0:+a=5:11b1b1b1b1b#");
+        fill(100);
+        for (int k = 1; k < 5; k++) {
+            branch(0, (char) ('b' + k), k);
+        }
+        carry(1, ";word:b>wxyz;move:a>c");
+        is(image(0), 100, "an IMAGE of three digits");
+        is(message(1), "1wxyz#100#100#100#100#10", "the last digit of a MENTION is cut off");
+        is(message(2), "wxyz1wxyz1#100#100#100#1", "two digits are");
+        is(message(3), "wxyz1wxyz1wxyz1#100#100#", "all digits are");
+        is(message(4), "11wxyz1wxyz1wxyz1wxyz1wx", "what a word became is cut off, and a #");
     }
 
     // ---- a RUN ----

@@ -625,6 +625,10 @@ final class EdgesOfCommits extends Desk {
         fault(":-a", -8001);
         fault(":+a=1;-a;-a", -8009);
         fault(":+a=1;*a>b;*a>c", -8011);
+        fault("0:-a;-a", -8005);
+        fault("0:*a>b;*a>c", -8007);
+        fault("0:-f;*f/g>b", -8005);
+        fault("1:+b=1;-b;-b", -8010);
         is(commit("0:-f/g", 0, 0), 2, "a FILE");
         is(commit("0:-f", 0, 0), 2, "a FOLDER");
         is(commit("0:*f>c", 0, 0), 3, "a FOLDER");

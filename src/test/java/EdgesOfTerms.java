@@ -379,6 +379,25 @@ final class EdgesOfTerms extends Desk {
         }
     }
 
+    @Says("each PATH of the CHANGE must be in the BRANCH's TREE as it was ahead of the CHANGE (nothing, that CONTENT), or as it is behind it.")
+    void whatAReplayNeedsOfFolders() {
+        commits(":+p=1", "0:-p;+p/q=2", ":+p/q=2;+z=1", ":+p/r=3", ":+p/q=2;+p/r=3", ":+p/q=1", ":+p=1;+z=1", ":+z=1");
+        branch(0, 'a', 1);
+        is(x.replay(0, 0, 1), -8, "onto itself: as it is behind");
+        branch(0, 'a', 2);
+        is(x.replay(0, 0, 1), -8, "the FOLDER is there already");
+        branch(0, 'a', 3);
+        is(spelt(x.replay(0, 0, 1)), "3:p/q=2;p/r=3:", "another FILE in a FOLDER there");
+        branch(0, 'a', 4);
+        is(x.replay(0, 0, 1), -8, "the FOLDER has one more");
+        branch(0, 'a', 5);
+        is(x.replay(0, 0, 1), -6, "neither nothing nor that CONTENT");
+        branch(0, 'a', 6);
+        is(spelt(x.replay(0, 0, 1)), "6:p/q=2;z=1:", "as it was ahead");
+        branch(0, 'a', 7);
+        is(spelt(x.replay(0, 0, 1)), "7:p/q=2;z=1:", "p as it is behind, p/q as it was ahead");
+    }
+
     // ---- what a PLAN brought about ----
 
     private void sound(int broken, int tied, int twins) {
@@ -406,6 +425,35 @@ final class EdgesOfTerms extends Desk {
         branch(0, 'a', 5);
         sound(1, 0, 0);
         is(x.sound(0, 5), 2, "those that are not MAPPED do not count");
+    }
+
+    @Says("BROKEN: pairs KEPT, one an ELDER of the other, whose IMAGES are not ANCESTORS so.")
+    void brokenOfOneImage() {
+        is(commit(":+f=1", 0, 0), 0, "COMMIT 0");
+        is(commit("0:", 0, 5), 1, "COMMIT 1");
+        is(commit(":+g=1", 0, 2), 2, "COMMIT 2");
+        is(commit("2,1:", 0, 3), 3, "COMMIT 3");
+        is(commit("0,3:", 0, 5), 4, "COMMIT 4");
+        carry(4, ";empty:0;merges:3");
+        int[] images = {0, 1, 2, 5, 1};
+        for (int k = 0; k < 5; k++) {
+            is(x.image(0, k, 0), images[k], "IMAGE of COMMIT " + k);
+            is(x.image(0, k, 1), 0, "KEPT");
+        }
+        is(spelt(5), "2:g=1:", "one PARENT' alone");
+        is(x.ancestor(1, 1), 0, "no COMMIT is an ANCESTOR of itself");
+        sound(5, 0, 1);
+    }
+
+    @Says("BROKEN: pairs KEPT, one an ELDER of the other, whose IMAGES are not ANCESTORS so.")
+    void brokenAmongElders() {
+        commits(":+a=1", "0:+b=1", ":+c=1", "1,2:+d=1");
+        branch(0, 'b', 1);
+        carry(3, ";graft:3>2");
+        is(carried(3), "2:a=1;b=1;d=1:", "grafted");
+        is(x.ancestor(1, 3), 1, "an ANCESTOR that is no ELDER");
+        is(x.ancestor(1, x.image(0, 3, 0)), 0, "its IMAGE is no ANCESTOR either");
+        sound(0, 0, 0);
     }
 
     @Says("TIED: pairs KEPT, none an ELDER of the other, of whose IMAGES one is an ANCESTOR of the other.")
