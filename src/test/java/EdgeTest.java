@@ -13,7 +13,7 @@ import java.util.List;
  */
 public final class EdgeTest {
     private static final List<Class<? extends Desk>> TESTS = List.of(EdgesOfCommits.class, EdgesOfPlans.class,
-        EdgesOfCarrying.class, EdgesOfTerms.class, EdgesOfTelling.class, EdgesOfAsking.class);
+        EdgesOfCarrying.class, EdgesOfTerms.class, EdgesOfTelling.class, EdgesOfAsking.class, EdgesOfMany.class);
 
     /** Part 0: what stands ahead of the promises and behind them. */
     private static final List<String> PARTS = new ArrayList<>();
