@@ -234,7 +234,110 @@ final class EdgesOfMany extends Desk {
         is(x.halving(0, 5, 2), 3, "its WEIGHT");
     }
 
+    // ---- greater and lesser, longer and shorter ----
+
+    @Says(promise = 27, value = "-4: there are not so many FILES;")
+    void likenessFarBehindTheLast() {
+        commits(":+a=1;+b=2;+c=3", "0:-b;-c", ":");
+        for (int i = 0; i < 16; i++) {
+            is(x.likeness(1, i, 0, 0, 1), i < 1 ? 100 : -4, "FILE " + i + " of one");
+            is(x.likeness(0, 0, 1, i, 1), i < 1 ? 100 : -4, "FILE " + i + " of one");
+            is(x.likeness(2, i, 0, 0, 0), -4, "FILE " + i + " of none");
+            is(x.likeness(0, 0, 2, i, 0), -4, "FILE " + i + " of none");
+            is(x.likeness(0, i, 0, 0, 0) == -4, i >= 3, "FILE " + i + " of three");
+            is(x.origin(1, i, 0), i < 1 ? 0 : -4, "ORIGIN of FILE " + i + " of one");
+        }
+    }
+
+    @Says("A COMMIT TOUCHES a PATH if what is there (a FILE and its CONTENT, a FOLDER and all below it, nothing) is unlike that at each of its PARENTS;")
+    void touchesByALesserContent() {
+        commits(":+a=9;+f/g=9;+f/h=1", "0:+a=1", "0:+f/g=1", "0:+a=99", "0:+f/h=2", "0:+f/g=1;+f/h=9");
+        int[] dueOfA = {1, 2, 1, 2, 1, 1};
+        int[] dueOfF = {1, 1, 2, 1, 2, 2};
+        for (int k = 0; k < 6; k++) {
+            branch(0, 'a', k);
+            is(touches(0, "a"), dueOfA[k], "TOUCHES of a up to COMMIT " + k);
+            is(touches(0, "f"), dueOfF[k], "TOUCHES of f up to COMMIT " + k);
+        }
+    }
+
+    @Says("Those of like PARENTS (in their order), TREE, MESSAGE, WHO and HOUR are one: what comes that is there already is that one.")
+    void unlikeInTheMessage() {
+        String[] messages = {"b", "a", "c", "ab", "ba", "bb", "", "b1", "b0", "#b", "a23456789012", "a23456789013", "a23456789011"};
+        for (int round = 0; round < 2; round++) {
+            for (int i = 0; i < messages.length; i++) {
+                is(commit(":+a=1:" + messages[i], 3, 4), i, "the COMMIT of MESSAGE " + messages[i]);
+            }
+        }
+    }
+
+    @Says("UNDONE: as they were SAVED last.")
+    void unlikeInTheMessageOfWhatIsUndone() {
+        is(x.keep(), 0, "keep");
+        is(commit(":+a=1:abcdef", 3, 4), 0, "six bytes");
+        is(x.undo(), true, "undo");
+        is(commit(":+a=1:abc", 3, 4), 0, "three bytes");
+        is(commit(":+a=1:abcdef", 3, 4), 1, "another one");
+        is(spelt(0), ":a=1:abc", "COMMIT 0");
+        is(spelt(1), ":a=1:abcdef", "COMMIT 1");
+    }
+
+    @Says(promise = 31, value = "The lowest COMMIT of HISTORY h, not k, with a CHANGE as that of COMMIT k;")
+    void pickedOfAShorterChange() {
+        commits(":+a=2;+b=1", ":+a=1", ":+a=1;+b=1", ":", ":+a=1;+b=1;+c=1", ":+b=1");
+        for (int k = 0; k < 6; k++) {
+            is(x.ref(1, 1, k, k), k + 1, "TAG");
+        }
+        for (int k = 0; k < 6; k++) {
+            is(x.picked(1, k), -2, "none as COMMIT " + k);
+        }
+    }
+
     // ---- many REFS, HISTORIES, LINES, PLANS ----
+
+    @Says("Of the moves whose first PLACE is its PATH, a BEGINNING of it, or . , that of the most NAMES:")
+    void movesInAnyOrder() {
+        commits(":+a/b/c/d=1");
+        String[] lines = {"move:.>w", "move:a>x", "move:a/b>y", "move:a/b/c>z"};
+        for (int i = 0; i < 24; i++) {
+            StringBuilder all = new StringBuilder();
+            boolean[] told = new boolean[4];
+            for (int left = 4, rest = i; left > 0; rest /= left, left--) {
+                int skip = rest % left;
+                for (int j = 0; j < 4; j++) {
+                    if (!told[j] && skip-- == 0) {
+                        told[j] = true;
+                        all.append(';').append(lines[j]);
+                        break;
+                    }
+                }
+            }
+            carry(0, all.toString());
+            is(carried(0), ":z/d=1:", "TREE' by " + all);
+            carry(0, all.toString().replace("move:a/b/c>z", "move:a/b/d>z"));
+            is(carried(0), ":y/c/d=1:", "TREE' by " + all + " without the longest");
+        }
+    }
+
+    @Says("6 a move, swap, word, graft, sign of what one of these tells already ahead of its >, where the word begins (asked when that ends);")
+    void toldAlreadyByALaterLine() {
+        commits(":", "0:", "1:", "2:");
+        String[] words = {"move:%>z", "swap:%>9", "word:%>z", "graft:%>.", "sign:%>9"};
+        String[] ones = {"abcd", "1234", "abcd", "0123", "1234"};
+        for (int w = 0; w < words.length; w++) {
+            for (int n = 2; n < 5; n++) {
+                for (int again = 0; again < n - 1; again++) {
+                    StringBuilder text = new StringBuilder("from:0;to:1");
+                    for (int i = 0; i < n - 1; i++) {
+                        text.append(';').append(words[w].replace('%', ones[w].charAt(i)));
+                    }
+                    int place = text.length() + 1;
+                    planFault(text + ";" + words[w].replace('%', ones[w].charAt(again)), -6000 - place);
+                    is(plan(1, text + ";" + words[w].replace('%', ones[w].charAt(n - 1))), 2 + n, "another one");
+                }
+            }
+        }
+    }
 
     @Says("COMMITS of a HISTORY: those that REFS are at and their ANCESTORS.")
     void commitsOfManyRefs() {
