@@ -201,8 +201,9 @@ final class EdgesOfAsking extends Desk {
     @Says(promise = 12, value = "a FAULT: 1 what can't stand there;")
     void lookFaults() {
         commits(":+a/b=1");
-        String[] texts = {"/", "A", "1", "a/", "a//", "ab", "a/b/", "a/1", "a/b/c/d/e/", "a/b/c/d/e/1", "a.", "a b", "`", "{", "a/`"};
-        int[] due = {0, 0, 0, 2, 2, 1, 4, 2, 10, 10, 1, 1, 0, 0, 2};
+        String[] texts = {"/", "A", "1", "a/", "a//", "ab", "a/b/", "a/1", "a/b/c/d/e/", "a/b/c/d/e/1", "a.", "a b", "`", "{", "a/`",
+            "a/bc", "a/b?", "a/b/c/d/ef", "a/b/c/d/e.", "z/yx"};
+        int[] due = {0, 0, 0, 2, 2, 1, 4, 2, 10, 10, 1, 1, 0, 0, 2, 3, 3, 9, 9, 3};
         for (int i = 0; i < texts.length; i++) {
             for (int what = 0; what < 4; what++) {
                 int its = what;
@@ -1094,8 +1095,9 @@ final class EdgesOfAsking extends Desk {
     @Says(promise = 29, value = "a FAULT: 1 what can't stand there;")
     void touchesFaults() {
         store();
-        String[] texts = {"/", "A", "1", "a/", "a//", "ab", "a/b/", "a/1", "a/b/c/d/e/", "a/b/c/d/e/1", "a.", "`", "{"};
-        int[] due = {0, 0, 0, 2, 2, 1, 4, 2, 10, 10, 1, 0, 0};
+        String[] texts = {"/", "A", "1", "a/", "a//", "ab", "a/b/", "a/1", "a/b/c/d/e/", "a/b/c/d/e/1", "a.", "`", "{",
+            "a/bc", "a/b?", "a/b/c/d/ef", "a/b/c/d/e.", "z/yx"};
+        int[] due = {0, 0, 0, 2, 2, 1, 4, 2, 10, 10, 1, 0, 0, 3, 3, 9, 9, 3};
         for (int i = 0; i < texts.length; i++) {
             String text = texts[i];
             refusedTold(() -> touches(0, text), -1000 - due[i], "touches " + text);
